@@ -1,0 +1,220 @@
+/** Promises 35 to 40: images, what is told. */
+public final class ImagesTest {
+  private ImagesTest() {
+  }
+
+  public static void main(String[] args) {
+    restoreNone();
+    imageKeeps();
+    imageLeaves();
+    imageAgain();
+    tell();
+    check();
+    count();
+    told();
+    Due.end();
+  }
+
+  private static void restoreNone() {
+    DrownedBell x = new DrownedBell();
+    x.set(3, 9);
+    Due.is("36: none", x.restore(), Due.NONE);
+    Due.is("36: unchanged", x.now(4), 9);
+    Due.is("36: told", x.told(2), 1);
+  }
+
+  private static DrownedBell full() {
+    DrownedBell x = new DrownedBell();
+    x.rain(0, 3, 9);
+    x.rain(1, 2, 8);
+    x.set(0, 5);
+    x.set(2, 4);
+    x.set(4, 3);
+    x.set(5, 31);
+    x.set(7, 321);
+    x.thing(2, 333);
+    x.fisher(33, 4);
+    x.fisher(61, 5);
+    x.change(1, 3, 77);
+    Due.text(x, 0, "c+3");
+    Due.text(x, 1, "g*2");
+    x.hours(5);
+    Due.feed(x, "c-1");
+    x.tell(5);
+    x.tell(6);
+    x.seed(99);
+    x.set(6, 1);
+    return x;
+  }
+
+  private static void spoil(DrownedBell x) {
+    x.rain(0, 3, 1);
+    x.rain(1, 2, 1);
+    x.set(0, 1);
+    x.set(2, 1);
+    x.set(4, 90);
+    x.set(5, 90);
+    x.set(6, 0);
+    x.set(7, 1);
+    x.thing(2, 0);
+    x.become(0, 0);
+    x.change(0, 2, 50);
+    x.change(1, 3, 1);
+    x.fisher(0, 0);
+    x.text(0);
+    Due.text(x, 1, "9");
+    x.hours(30);
+    x.tell(1);
+    x.seed(2);
+    x.set(3, 17);
+  }
+
+  private static void alike(DrownedBell x, DrownedBell y) {
+    for (int what = 0; what < 13; what++) {
+      Due.is("35: now " + what, x.now(what), y.now(what));
+      Due.is("35: then " + what, x.then(30, what), y.then(30, what));
+    }
+    for (int what = 0; what < 8; what++) {
+      Due.is("35: count " + what, x.count(what), y.count(what));
+      Due.is("35: fisher 0 " + what, x.ofFisher(0, what), y.ofFisher(0, what));
+      Due.is("35: fisher 1 " + what, x.ofFisher(1, what), y.ofFisher(1, what));
+    }
+    for (int note = 0; note <= 9; note++) {
+      Due.is("35: dry " + note, x.book(note, 0), y.book(note, 0));
+      Due.is("35: wet " + note, x.book(note, 1), y.book(note, 1));
+    }
+    Due.is("35: rings", x.law(0, 7, 0, 0), y.law(0, 7, 0, 0));
+    Due.is("35: lets", x.law(1, 99, 0, 7), y.law(1, 99, 0, 7));
+    Due.is("35: shows", x.shows(), y.shows());
+    Due.is("35: tape", x.text(0), y.text(0));
+    Due.is("35: rings by the tape", x.law(0, 7, 0, 0), y.law(0, 7, 0, 0));
+    Due.is("35: numbers that wait", x.check(), y.check());
+  }
+
+  private static void imageKeeps() {
+    DrownedBell x = full();
+    Due.is("35: first", x.image(), 1);
+    alike(full(), full());
+    spoil(x);
+    Due.is("36: hour", x.restore(), 5);
+    alike(x, full());
+    spoil(x);
+    Due.is("36: it stays", x.restore(), 5);
+    alike(x, full());
+  }
+
+  private static void imageLeaves() {
+    DrownedBell x = full();
+    x.sheet(0, 8, 2);
+    x.image();
+    x.voice(0, 3, 1);
+    int bodies = x.count(6);
+    x.put(0, 0, 5);
+    x.sheet(1, 16, 1);
+    x.now(99);
+    Due.is("36: restored", x.restore(), 5);
+    Due.is("35: the trace is not in it", x.count(6), bodies);
+    Due.is("35: sheets are not in it", x.rains(0, 1), 2);
+    Due.is("35: number put", x.rain(1, 0, 0), 5);
+    Due.is("35: sheet laid", x.judge(1), 1);
+    Due.is("35: what is told is not in it", x.told(1), 1);
+    Due.is("35: how often is not in it", x.image(), 2);
+  }
+
+  private static void imageAgain() {
+    DrownedBell x = new DrownedBell();
+    x.image();
+    x.hours(3);
+    Due.is("35: in place", x.image(), 2);
+    x.hours(3);
+    Due.is("36: the later one", x.restore(), 3);
+    Due.is("36: level of the later one", x.now(4), 285);
+    Due.is("36: how often stays", x.image(), 3);
+  }
+
+  private static void tell() {
+    DrownedBell x = new DrownedBell();
+    for (int i = 1; i <= 20; i++) {
+      Due.is("37: waits", x.tell(i == 1 ? Integer.MIN_VALUE : -i), i);
+    }
+    Due.is("37: full", x.tell(0), Due.FULL);
+    Due.is("37: 20 wait", x.count(5), 20);
+    Due.is("37: told", x.told(4), 1);
+    x.check();
+    Due.is("37: from 1 again", x.tell(0), 1);
+  }
+
+  private static void check() {
+    DrownedBell x = new DrownedBell();
+    Due.is("38: none waits", x.check(), 0);
+    x.tell(295);
+    x.tell(290);
+    x.tell(285);
+    Due.is("38: all are so", x.check(), 0);
+    Due.is("38: none waits then", x.count(5), 0);
+    Due.is("38: hour as it was", x.count(0), 0);
+    x.tell(295);
+    x.tell(290);
+    x.tell(300);
+    x.tell(280);
+    Due.is("38: the third", x.check(), 3);
+    Due.is("38: none waits, too", x.check(), 0);
+    x.tell(300);
+    Due.is("38: the first", x.check(), 1);
+    for (int i = 1; i <= 20; i++) {
+      x.tell(i == 20 ? 0 : 300 - 5 * i);
+    }
+    Due.is("38: the last of 20", x.check(), 20);
+    x.hours(1);
+    x.tell(290);
+    Due.is("38: from now on", x.check(), 0);
+  }
+
+  private static void count() {
+    DrownedBell x = new DrownedBell();
+    Due.text(x, 0, "9");
+    x.fisher(0, 0);
+    x.fisher(20, 99);
+    x.fisher(60, 0);
+    x.change(1, 3, 7);
+    x.hours(4);
+    Due.feed(x, "1234567890");
+    x.tell(1);
+    x.voice(0, 3, 0);
+    x.seed(-5);
+    int[] want = {4, 3, 8, 47, 10, 1, 4, -5};
+    for (int what = 0; what < 8; what++) {
+      Due.is("39: count " + what, x.count(what), want[what]);
+    }
+    Due.is("39: beyond below", x.count(-1), Due.BEYOND);
+    Due.is("39: beyond above", x.count(8), Due.BEYOND);
+    x.seed(Due.BEYOND);
+    Due.is("39: any number", x.count(7), Due.BEYOND);
+    Due.is("39: told", x.told(1), 2);
+  }
+
+  private static void told() {
+    DrownedBell x = new DrownedBell();
+    Due.is("40: beyond above", x.told(6), Due.BEYOND);
+    Due.is("40: beyond below", x.told(0), Due.BEYOND);
+    Due.is("40: counted, too", x.told(1), 2);
+    x.odds(10, 0);
+    Due.is("40: in longs, too", x.told(1), 3);
+    x.sell();
+    x.restore();
+    Due.is("40: none", x.told(2), 2);
+    x.sheet(0, 8, -1);
+    Due.is("40: state", x.told(3), 1);
+    for (int i = 0; i < 7; i++) {
+      x.feed(0, 8);
+    }
+    Due.is("40: full", x.told(4), 1);
+    x.fisher(0, 0);
+    x.as(0, 1);
+    Due.is("40: kind", x.told(5), 1);
+    Due.is("40: a fault is no error", x.text(0), -10);
+    Due.is("40: beyond as before", x.told(1), 3);
+    Due.is("40: beyond far", x.told(Integer.MIN_VALUE), Due.BEYOND);
+    Due.is("40: counted again", x.told(1), 4);
+  }
+}

@@ -1,0 +1,227 @@
+/** Promises 30 to 34: sheets. */
+public final class SheetsTest {
+  private SheetsTest() {
+  }
+
+  public static void main(String[] args) {
+    sheet();
+    sheetWrong();
+    put();
+    putLowest();
+    move();
+    moveOrder();
+    rains();
+    rainsEdges();
+    judge();
+    judgeMuffled();
+    Due.end();
+  }
+
+  /** A SHEET of numbers, 32 bits each. */
+  private static void lay(DrownedBell x, int sheet, int... numbers) {
+    x.sheet(sheet, 32, numbers.length);
+    for (int i = 0; i < numbers.length; i++) {
+      x.put(sheet, i, numbers[i]);
+    }
+  }
+
+  /** A number of a SHEET can be seen only by what it brings: how many RAINS come up to it. */
+  private static void seen(String what, DrownedBell x, int sheet, int... numbers) {
+    int fits = 0;
+    while (fits < numbers.length && numbers[fits] >= 0 && numbers[fits] <= 9) {
+      fits++;
+    }
+    Due.is(what + ": how many", x.rains(sheet, 0), fits);
+    for (int i = 0; i < fits; i++) {
+      Due.is(what + ": " + i, x.rain(0, i, 0), numbers[i]);
+    }
+  }
+
+  private static void sheet() {
+    DrownedBell x = new DrownedBell();
+    Due.is("30: missing at first", x.rains(0, 0), Due.NONE);
+    Due.is("30: laid", x.sheet(0, 8, 3), 1);
+    seen("30: all 0", x, 0, 0, 0, 0);
+    x.put(0, 1, 5);
+    Due.is("30: laid again", x.sheet(0, 8, 4), 1);
+    seen("30: all 0 again", x, 0, 0, 0, 0, 0);
+    Due.is("30: none at all", x.sheet(3, 16, 0), 1);
+    Due.is("30: not missing", x.rains(3, 0), 0);
+    Due.is("30: most", x.sheet(3, 32, 40), 1);
+    Due.is("30: the last number", x.put(3, 39, 1), 1);
+    Due.is("30: missing again", x.sheet(3, 0, 9), 1);
+    Due.is("30: is missing", x.put(3, 0, 0), Due.NONE);
+    Due.is("30: n doesn't matter", x.sheet(3, 0, -1), 1);
+    Due.is("30: n doesn't matter at all", x.sheet(3, 0, 1000), 1);
+    Due.is("30: the others stay", x.rains(0, 0), 4);
+  }
+
+  private static void sheetWrong() {
+    DrownedBell x = new DrownedBell();
+    x.sheet(1, 8, 2);
+    int[][] beyond = {{-1, 8, 1}, {4, 8, 1}, {1, 1, 1}, {1, -8, 1}, {1, 24, 1}, {1, 64, 1}, {1, 8, 41},
+        {4, 8, -1}, {1, 7, -1}, {4, 0, 0}, {1, 32, Integer.MAX_VALUE}};
+    for (int[] w : beyond) {
+      Due.is("30: beyond " + w[0] + " " + w[1] + " " + w[2], x.sheet(w[0], w[1], w[2]), Due.BEYOND);
+    }
+    Due.is("30: state", x.sheet(1, 8, -1), Due.STATE);
+    Due.is("30: state of the least", x.sheet(1, 32, Integer.MIN_VALUE), Due.STATE);
+    Due.is("30: as it was", x.rains(1, 0), 2);
+    Due.is("30: told beyond", x.told(1), beyond.length);
+    Due.is("30: told state", x.told(3), 2);
+  }
+
+  private static void put() {
+    DrownedBell x = new DrownedBell();
+    Due.is("31: no such sheet", x.put(4, 0, 0), Due.BEYOND);
+    Due.is("31: no such sheet below", x.put(-1, 0, 0), Due.BEYOND);
+    Due.is("31: missing", x.put(0, 0, 0), Due.NONE);
+    Due.is("31: missing ahead of the number", x.put(0, -1, 0), Due.NONE);
+    x.sheet(0, 16, 3);
+    Due.is("31: no such number", x.put(0, 3, 0), Due.BEYOND);
+    Due.is("31: no such number below", x.put(0, -1, 0), Due.BEYOND);
+    Due.is("31: first", x.put(0, 0, 7), 1);
+    Due.is("31: last", x.put(0, 2, 9), 1);
+    seen("31: as put", x, 0, 7, 0, 9);
+    Due.is("31: told beyond", x.told(1), 4);
+    Due.is("31: told none", x.told(2), 2);
+  }
+
+  private static void putLowest() {
+    DrownedBell x = new DrownedBell();
+    x.sheet(0, 8, 3);
+    x.put(0, 0, 0x105);
+    x.put(0, 1, -256 + 4);
+    x.put(0, 2, 0x80);
+    seen("31: 8 bits", x, 0, 5, 4, 128);
+    x.sheet(0, 16, 3);
+    x.put(0, 0, 0x10005);
+    x.put(0, 1, -65536 + 4);
+    x.put(0, 2, 0x105);
+    seen("31: 16 bits", x, 0, 5, 4, 261);
+    x.sheet(0, 32, 2);
+    x.put(0, 0, 6);
+    x.put(0, 1, 0x10005);
+    seen("31: 32 bits", x, 0, 6, 65541);
+    x.put(0, 0, -1);
+    seen("31: below 0", x, 0, -1);
+  }
+
+  private static void move() {
+    DrownedBell x = new DrownedBell();
+    lay(x, 0, 1, 2, 3, 4, 5);
+    lay(x, 1, 0, 0, 0);
+    Due.is("32: two", x.move(0, 3, 1, 1, 2), 2);
+    seen("32: came", x, 1, 0, 4, 5);
+    seen("32: stay there", x, 0, 1, 2, 3, 4, 5);
+    Due.is("32: up within one", x.move(0, 0, 0, 1, 4), 4);
+    seen("32: as they all were", x, 0, 1, 1, 2, 3, 4);
+    Due.is("32: down within one", x.move(0, 1, 0, 0, 4), 4);
+    seen("32: as they all were again", x, 0, 1, 2, 3, 4, 4);
+    Due.is("32: none", x.move(0, 5, 1, 3, 0), 0);
+    Due.is("32: all", x.move(1, 0, 0, 2, 3), 3);
+    seen("32: all came", x, 0, 1, 2, 0, 4, 5);
+    int[][] wrong = {{0, 0, 1, 0, -1}, {0, -1, 1, 0, 1}, {0, 0, 1, -1, 1}, {0, 5, 1, 0, 1}, {0, 3, 1, 0, 3},
+        {0, 0, 1, 3, 1}, {0, 0, 1, 0, 4}, {1, 0, 0, 0, 4}, {0, 6, 1, 0, 0}, {0, 0, 1, 4, 0},
+        {0, Integer.MAX_VALUE, 1, 0, 1}, {0, 1, 1, 0, Integer.MAX_VALUE}, {0, 0, 1, Integer.MAX_VALUE, 2},
+        {0, Integer.MIN_VALUE, 1, 0, Integer.MIN_VALUE}};
+    for (int[] w : wrong) {
+      Due.is("32: beyond " + w[1] + " " + w[3] + " " + w[4], x.move(w[0], w[1], w[2], w[3], w[4]), Due.BEYOND);
+    }
+    seen("32: unchanged", x, 1, 0, 4, 5);
+    Due.is("32: told", x.told(1), wrong.length);
+  }
+
+  private static void moveOrder() {
+    DrownedBell x = new DrownedBell();
+    x.sheet(0, 8, 2);
+    x.sheet(1, 16, 2);
+    x.sheet(2, 8, 1);
+    Due.is("32: no such sheet", x.move(4, 0, 0, 0, 1), Due.BEYOND);
+    Due.is("32: no such other", x.move(3, 0, -1, 0, 1), Due.BEYOND);
+    Due.is("32: missing", x.move(3, -1, 0, 0, -1), Due.NONE);
+    Due.is("32: the other one missing", x.move(0, 0, 3, 0, 1), Due.NONE);
+    Due.is("32: unlike", x.move(0, -1, 1, 0, -1), Due.KIND);
+    Due.is("32: alike", x.move(0, 1, 2, 0, 1), 1);
+    Due.is("32: told", x.told(5), 1);
+  }
+
+  private static void rains() {
+    DrownedBell x = new DrownedBell();
+    for (int hour = 0; hour < 24; hour++) {
+      x.rain(1, hour, 1);
+    }
+    lay(x, 0, 9, 0, 10, 5);
+    Due.is("33: up to 10", x.rains(0, 1), 2);
+    Due.is("33: first", x.rain(1, 0, 1), 9);
+    Due.is("33: second", x.rain(1, 1, 1), 0);
+    Due.is("33: third stays", x.rain(1, 2, 1), 1);
+    Due.is("33: fourth stays", x.rain(1, 3, 1), 1);
+    x.put(0, 2, -1);
+    Due.is("33: up to -1", x.rains(0, 2), 2);
+    x.put(0, 2, 9);
+    Due.is("33: all", x.rains(0, 2), 4);
+    Due.is("33: the last", x.rain(2, 3, 0), 5);
+    x.put(0, 0, 11);
+    Due.is("33: none came", x.rains(0, 2), 0);
+  }
+
+  private static void rainsEdges() {
+    DrownedBell x = new DrownedBell();
+    x.sheet(0, 8, 40);
+    for (int i = 0; i < 40; i++) {
+      x.put(0, i, i < 24 ? 3 : 4);
+    }
+    Due.is("33: up to the 24th", x.rains(0, 0), 24);
+    Due.is("33: the 24th", x.rain(0, 23, 0), 3);
+    Due.is("33: not the next stream", x.rain(1, 0, 0), 0);
+    Due.is("33: the last stream", x.rains(0, 2), 24);
+    int[][] wrong = {{-1, 0}, {4, 0}, {0, -1}, {0, 3}, {1, 3}};
+    for (int[] w : wrong) {
+      Due.is("33: beyond " + w[0] + " " + w[1], x.rains(w[0], w[1]), Due.BEYOND);
+    }
+    Due.is("33: missing", x.rains(1, 0), Due.NONE);
+  }
+
+  private static void judge() {
+    DrownedBell x = Due.steadyOne();
+    Due.text(x, 0, "c-4");
+    lay(x, 0, 1, 1, 1);
+    Due.is("34: none is false", x.judge(0), 3);
+    x.put(0, 2, 2);
+    Due.is("34: the third", x.judge(0), 2);
+    x.put(0, 0, 0);
+    Due.is("34: the first", x.judge(0), 0);
+    x.put(0, 0, 257);
+    Due.is("34: no such note", x.judge(0), 0);
+    x.rain(1, 1, 8);
+    x.rain(1, 2, 0);
+    lay(x, 0, 1, 8, 0, 1);
+    Due.is("34: hour by hour", x.judge(0), 4);
+    x.hours(1);
+    Due.is("34: from now on", x.judge(0), 0);
+    lay(x, 0, 8, 0, 1);
+    Due.is("34: from now on, none", x.judge(0), 3);
+    x.sheet(0, 8, 0);
+    Due.is("34: empty", x.judge(0), 0);
+    Due.is("34: hour as it was", x.count(0), 1);
+    Due.is("34: beyond above", x.judge(4), Due.BEYOND);
+    Due.is("34: beyond below", x.judge(-1), Due.BEYOND);
+    Due.is("34: missing", x.judge(1), Due.NONE);
+  }
+
+  private static void judgeMuffled() {
+    DrownedBell x = Due.steadyOne();
+    Due.text(x, 0, "9");
+    lay(x, 0, 1, 0);
+    x.set(6, 1);
+    Due.is("34: a note of the muffled", x.judge(0), 0);
+    x.put(0, 0, 0);
+    Due.is("34: silence of the muffled", x.judge(0), 2);
+    x.set(6, 0);
+    Due.is("34: silence is false", x.judge(0), 0);
+    lay(x, 0, 1, 1, 1, 0, 0);
+    x.set(7, 39);
+    Due.is("34: silence of the fallen", x.judge(0), 5);
+  }
+}

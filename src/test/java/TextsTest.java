@@ -1,0 +1,218 @@
+/** Promises 15 to 17: texts. */
+public final class TextsTest {
+  private TextsTest() {
+  }
+
+  public static void main(String[] args) {
+    feed();
+    textTaken();
+    faults();
+    faultsOfNames();
+    open();
+    lawRings();
+    lawLets();
+    lawWithout();
+    Due.end();
+  }
+
+  private static void feed() {
+    DrownedBell x = new DrownedBell();
+    Due.is("15: beyond 0", x.feed(0, 0), Due.BEYOND);
+    Due.is("15: beyond 9", x.feed(0, 9), Due.BEYOND);
+    Due.is("15: beyond less", x.feed(0, -1), Due.BEYOND);
+    Due.is("15: one", x.feed(-1L, 1), 1);
+    Due.is("15: eight", x.feed(-1L, 8), 9);
+    for (int i = 1; i <= 5; i++) {
+      Due.is("15: more", x.feed(0, 8), 9 + 8 * i);
+    }
+    Due.is("15: full by one", x.feed(0, 2), Due.FULL);
+    Due.is("15: as many as before", x.count(4), 49);
+    Due.is("15: beyond ahead of full", x.feed(0, 9), Due.BEYOND);
+    Due.is("15: fifty", x.feed(0, 1), 50);
+    Due.is("15: full", x.feed(0, 1), Due.FULL);
+    Due.is("15: told", x.told(4), 2);
+    Due.is("15: first byte is 255", x.text(0), -10);
+    x.feed(0x3233343536373839L, 1);
+    x.feed(0x31L << 8 | 0x2B, 2);
+    Due.is("15: lowest first", x.text(0), 1);
+    Due.is("15: 9 and 1", x.law(0, 0, 0, 0), 10);
+  }
+
+  private static void textTaken() {
+    DrownedBell x = new DrownedBell();
+    Due.feed(x, "7");
+    Due.is("16: beyond above", x.text(2), Due.BEYOND);
+    Due.is("16: beyond below", x.text(-1), Due.BEYOND);
+    Due.is("16: the tape stays", x.count(4), 1);
+    Due.is("16: taken", x.text(0), 1);
+    Due.is("16: the tape is empty", x.count(4), 0);
+    Due.is("16: gives", x.law(0, 0, 0, 0), 7);
+    Due.is("16: nothing on the tape", x.text(0), -10);
+    Due.is("16: the one ahead stays", x.law(0, 0, 0, 0), 7);
+    Due.is("16: a fault", Due.text(x, 0, "8+"), -12);
+    Due.is("16: the tape is empty, too", x.count(4), 0);
+    Due.is("16: the one ahead stays again", x.law(0, 0, 0, 0), 7);
+    Due.is("16: in place", Due.text(x, 0, "8"), 1);
+    Due.is("16: gives the new", x.law(0, 0, 0, 0), 8);
+    Due.is("16: the other use", Due.text(x, 1, "3"), 1);
+    Due.is("16: of its own", x.law(0, 0, 0, 0), 8);
+    Due.is("16: lets", x.law(1, 9, 0, 0), 3);
+    Due.is("16: no error told", x.told(1), 2);
+    Due.is("16: fifty bytes", Due.text(x, 0, "1+1+1+1+1+1+1+1+1+1+1+1+1+1+1+1+1+1+1+1+1+1+1+1+10"), 1);
+    Due.is("16: too early at 50", Due.text(x, 0, "1+1+1+1+1+1+1+1+1+1+1+1+1+1+1+1+1+1+1+1+1+1+1+1+1+"), -60);
+  }
+
+  private static void fault(String text, int want) {
+    DrownedBell x = new DrownedBell();
+    Due.is("16: " + text, Due.text(x, 0, text), want < 0 ? 1 : -10 - want);
+  }
+
+  private static void faults() {
+    String[] good = {"0", "0000", "9999", "c", "s", "l", "1|2|3", "1&2&3", "1<2", "1=2", "1>2", "1<2&3>4|5=6",
+        "1+2-3", "1*2/3%4", "!1", "!!!!!1", "(((((1)))))", "!(!(!1))", "(1<2)<3", "1<(2<3)", "((1))*(2)",
+        "1+!2*!(3)", "!1+!1+!1+!1+!1+!1+!1", "(1)+(1)+(1)+(1)+(1)+(1)+(1)"};
+    for (String text : good) {
+      fault(text, -1);
+    }
+    fault("", 0);
+    fault("+", 0);
+    fault("-1", 0);
+    fault(")", 0);
+    fault(" 1", 0);
+    fault("1 ", 1);
+    fault("12345", 4);
+    fault("00000", 4);
+    fault("1+12345", 6);
+    fault("1c", 1);
+    fault("c1", 1);
+    fault("cc", 1);
+    fault("1(", 1);
+    fault("1!", 1);
+    fault("1<2<3", 3);
+    fault("1<2=3", 3);
+    fault("1=2>3", 3);
+    fault("1<2&3<4<5", 7);
+    fault("(1<2>3)", 4);
+    fault("1||2", 2);
+    fault("1&", 2);
+    fault("1+*2", 2);
+    fault("(1", 2);
+    fault("(1+2", 4);
+    fault("()", 1);
+    fault("1)", 1);
+    fault("(1))", 3);
+    fault("!", 1);
+    fault("!)", 1);
+    fault("1/", 2);
+    fault("1%%1", 2);
+    fault("1\u00e9", 1);
+    fault("1\0", 1);
+    fault("C", 0);
+    fault("1<=2", 2);
+  }
+
+  private static void faultsOfNames() {
+    DrownedBell x = new DrownedBell();
+    String letters = "abcdefghijklmnopqrstuvwxyz";
+    for (int i = 0; i < letters.length(); i++) {
+      String name = letters.substring(i, i + 1);
+      Due.is("16: rings " + name, Due.text(x, 0, "1+" + name), "csl".contains(name) ? 1 : -12);
+      Due.is("16: lets " + name, Due.text(x, 1, "1+" + name), "lfg".contains(name) ? 1 : -12);
+    }
+  }
+
+  private static void open() {
+    fault("!!!!!!1", 5);
+    fault("((((((1))))))", 5);
+    fault("!(!(!(1)))", 5);
+    fault("!(!(!", 5);
+    fault("!(!(!!1))", 5);
+    fault("(!1+!1+((((1", 12);
+    fault("(!1+!1+(((((1", 11);
+    fault("(!1+!1+((((1))))", 16);
+    fault("(!1+!1+((((!", 11);
+    fault("((((!1&!!1))))", 8);
+    fault("((((!1&!1))))", -1);
+  }
+
+  private static void rings(String text, int want) {
+    DrownedBell x = new DrownedBell();
+    Due.is("16: " + text, Due.text(x, 0, text), 1);
+    Due.is("17: " + text, x.law(0, 7, 13, -5), want);
+  }
+
+  private static void lawRings() {
+    rings("c", 7);
+    rings("s", 13);
+    rings("l+9", 4);
+    rings("l", 0);
+    rings("s+c+1", 20);
+    rings("s+8", 20);
+    rings("2+3*4", 14);
+    rings("(2+3)*4", 20);
+    rings("20-3-4", 13);
+    rings("100/5/2", 10);
+    rings("100%7*5", 10);
+    rings("17%6", 5);
+    rings("l/2+9", 7);
+    rings("l%3+9", 7);
+    rings("1+7/0", 1);
+    rings("1+7%0", 1);
+    rings("!0", 1);
+    rings("!7", 0);
+    rings("!!7", 1);
+    rings("!c+5", 5);
+    rings("!(c-7)+5", 6);
+    rings("2&4", 1);
+    rings("2&0", 0);
+    rings("0|4", 1);
+    rings("0|0", 0);
+    rings("1|0&0", 1);
+    rings("1|1&0+2", 1);
+    rings("3<4", 1);
+    rings("4<4", 0);
+    rings("4=4", 1);
+    rings("4=3", 0);
+    rings("5>4", 1);
+    rings("4>4", 0);
+    rings("l<0", 1);
+    rings("1+1<2+1", 1);
+    rings("(3>2)+(2>1)+5", 7);
+    rings("9999*9999*9999*9999>0", 1);
+    rings("9999*9999*9999<0", 1);
+    rings("9999*9999*9999%17+17", 15);
+    rings("0012", 12);
+  }
+
+  private static void lawLets() {
+    DrownedBell x = new DrownedBell();
+    Due.is("17: text", Due.text(x, 1, "l*100+f*10+g"), 1);
+    Due.is("17: in order", x.law(1, 1000, -10000, 1), 1);
+    Due.is("17: held by the level", x.law(1, 500, 1, 1), 500);
+    Due.is("17: held at 0", x.law(1, 5, -100, 0), 0);
+    Due.is("17: a level of 0", x.law(1, 0, 5, 5), 0);
+    Due.is("17: a level below 0", x.law(1, -5, 100, 5), 0);
+    Due.is("17: beyond above", x.law(2, 0, 0, 0), Due.BEYOND);
+    Due.is("17: beyond below", x.law(-1, 0, 0, 0), Due.BEYOND);
+    Due.is("17: told", x.told(1), 2);
+    Due.text(x, 0, "c-1");
+    Due.is("17: wraps", x.law(0, Integer.MIN_VALUE, 0, 0), 20);
+    Due.text(x, 0, "c/(0-1)+1");
+    Due.is("17: the least by -1", x.law(0, Integer.MIN_VALUE, 0, 0), 0);
+    Due.text(x, 0, "c%(0-1)+1");
+    Due.is("17: the rest of the least by -1", x.law(0, Integer.MIN_VALUE, 0, 0), 1);
+  }
+
+  private static void lawWithout() {
+    DrownedBell x = new DrownedBell();
+    Due.is("17: rings", x.law(0, 30, 39, 99), 20);
+    Due.is("17: rings by silt", x.law(0, 20, 39, 99), 13);
+    Due.is("17: rings by silt below 0", x.law(0, 10, -39, 99), 9);
+    Due.is("17: rings held", x.law(0, 3, 0, 0), 0);
+    Due.is("17: rings wrap", x.law(0, Integer.MIN_VALUE, 0, 0), 20);
+    Due.is("17: lets", x.law(1, 50, 9, 7), 7);
+    Due.is("17: lets held", x.law(1, 6, 9, 7), 6);
+    Due.is("17: lets held at 0", x.law(1, 6, 9, -7), 0);
+    Due.is("17: lets of a level below 0", x.law(1, -6, 9, 7), 0);
+  }
+}
