@@ -161,6 +161,13 @@ public final class AheadTest {
     y.hours(9);
     Due.is("24: only dry, above", y.odds(0, 0), 0);
     Due.is("24: only dry, below", y.odds(0, 1), 1);
+    Due.text(y, 0, "8");
+    y.hours(2);
+    Due.is("24: note 9 at first", y.odds(9, 0), 0);
+    y.rain(1, 11, 9);
+    y.hours(1);
+    Due.is("24: 1 of 2 of note 9, above", y.odds(9, 0), 1);
+    Due.is("24: 1 of 2 of note 9, below", y.odds(9, 1), 2);
     int[][] wrong = {{-1, 0}, {10, 0}, {0, -1}, {0, 2}};
     for (int[] w : wrong) {
       Due.is("24: beyond " + w[0] + " " + w[1], y.odds(w[0], w[1]), Due.BEYOND);
@@ -205,6 +212,7 @@ public final class AheadTest {
     Due.is("26: behind 2 of many", x.shown(1, 240), 2);
     Due.is("26: as high as the level", x.shown(2, 0), Due.NONE);
     Due.is("26: behind 1", x.shown(2, 240), 1);
+    Due.is("26: the last thing", x.shown(5, 9), 0);
     x.thing(0, 0);
     Due.is("26: never", x.shown(0, 240), Due.NONE);
     int[][] wrong = {{-1, 0}, {6, 0}, {0, -1}, {0, 241}};

@@ -15,6 +15,7 @@ public final class HoursTest {
     wrong();
     loose();
     looseHeld();
+    looseToTheLastHour();
     looseWrong();
     Due.end();
   }
@@ -209,6 +210,15 @@ public final class HoursTest {
     for (int what = 0; what < 13; what++) {
       Due.is("19: 240 as 240 times one " + what, y.now(what), z.now(what));
     }
+  }
+
+  private static void looseToTheLastHour() {
+    DrownedBell x = new DrownedBell();
+    for (int i = 0; i < 41; i++) {
+      x.hours(240);
+    }
+    Due.yes("19: up to the last", x.loose(159) >= 0);
+    Due.is("19: the last", x.count(0), 9999);
   }
 
   private static void looseWrong() {

@@ -38,10 +38,11 @@ public final class ImagesTest {
     x.change(1, 3, 77);
     Due.text(x, 0, "c+3");
     Due.text(x, 1, "g*2");
+    x.set(3, 599);
     x.hours(5);
     Due.feed(x, "c-1");
-    x.tell(5);
-    x.tell(6);
+    x.tell(x.then(1, 4));
+    x.tell(x.then(2, 4));
     x.seed(99);
     x.set(6, 1);
     return x;
@@ -65,7 +66,13 @@ public final class ImagesTest {
     Due.text(x, 1, "9");
     x.hours(30);
     x.tell(1);
+    x.check();
+    x.tell(1);
     x.seed(2);
+    x.set(4, 0);
+    x.set(3, 600);
+    x.rain(1, 12, 9);
+    x.hours(24);
     x.set(3, 17);
   }
 

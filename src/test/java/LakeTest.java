@@ -117,6 +117,18 @@ public final class LakeTest {
     Due.is("4: strikes by silt", x.now(2), 15);
     Due.is("4: note by silt", x.now(3), 9);
     Due.is("4: silt", x.now(6), 25);
+    x.set(5, 19);
+    Due.is("4: silt of 19", x.now(3), 9);
+    x.set(5, 20);
+    Due.is("4: silt of 20", x.now(3), 9);
+    Due.text(x, 0, "7");
+    int[] notes = {8, 8, 9, 9, 1, 1, 7, 8};
+    int[] mud = {0, 9, 10, 19, 20, 29, 89, 90};
+    for (int i = 0; i < mud.length; i++) {
+      x.set(5, mud[i]);
+      Due.is("4: note by silt " + mud[i], x.now(3), notes[i]);
+    }
+    x.set(5, 25);
     x.set(4, 77);
     Due.is("4: gate", x.now(5), 77);
     x.set(6, 1);
@@ -167,7 +179,9 @@ public final class LakeTest {
     DrownedBell x = new DrownedBell();
     Due.is("5: none", x.led(0), Due.NONE);
     x.rain(2, 0, 1);
+    x.set(2, 1);
     Due.is("5: the only one", x.led(0), 2);
+    x.set(2, 2);
     x.rain(1, 0, 1);
     Due.is("5: the least of two", x.led(0), 1);
     x.set(2, 3);

@@ -204,6 +204,11 @@ public final class SheetsTest {
     Due.is("34: from now on, none", x.judge(0), 3);
     x.sheet(0, 8, 0);
     Due.is("34: empty", x.judge(0), 0);
+    DrownedBell y = new DrownedBell();
+    y.sheet(3, 16, 40);
+    Due.is("34: forty silent hours", y.judge(3), 40);
+    y.put(3, 39, 1);
+    Due.is("34: the fortieth", y.judge(3), 39);
     Due.is("34: hour as it was", x.count(0), 1);
     Due.is("34: beyond above", x.judge(4), Due.BEYOND);
     Due.is("34: beyond below", x.judge(-1), Due.BEYOND);

@@ -58,6 +58,9 @@ public final class TextsTest {
     Due.is("16: of its own", x.law(0, 0, 0, 0), 8);
     Due.is("16: lets", x.law(1, 9, 0, 0), 3);
     Due.is("16: no error told", x.told(1), 2);
+    Due.text(x, 0, "1+2+3+4");
+    Due.text(x, 0, "5");
+    Due.is("16: nothing stays of the longer one", x.law(0, 0, 0, 0), 5);
     Due.is("16: fifty bytes", Due.text(x, 0, "1+1+1+1+1+1+1+1+1+1+1+1+1+1+1+1+1+1+1+1+1+1+1+1+10"), 1);
     Due.is("16: too early at 50", Due.text(x, 0, "1+1+1+1+1+1+1+1+1+1+1+1+1+1+1+1+1+1+1+1+1+1+1+1+1+"), -60);
   }
@@ -165,6 +168,9 @@ public final class TextsTest {
     rings("!(c-7)+5", 6);
     rings("2&4", 1);
     rings("2&0", 0);
+    rings("0&2", 0);
+    rings("0&0", 0);
+    rings("2|0", 1);
     rings("0|4", 1);
     rings("0|0", 0);
     rings("1|0&0", 1);
