@@ -306,19 +306,14 @@ public final class DrownedBell {
   // ---- hours
 
   public int hours(int n) {
-    if (!within(n, 1, AT_ONCE)) {
-      return fail(BEYOND);
-    }
-    if (here.hour + n > HOUR_MOST) {
-      return fail(STATE);
-    }
-    for (int i = 0; i < n; i++) {
-      here.passHour();
-    }
-    return here.level;
+    return passHours(n, false);
   }
 
   public int loose(int n) {
+    return passHours(n, true);
+  }
+
+  private int passHours(int n, boolean byDraws) {
     if (!within(n, 1, AT_ONCE)) {
       return fail(BEYOND);
     }
@@ -326,7 +321,9 @@ public final class DrownedBell {
       return fail(STATE);
     }
     for (int i = 0; i < n; i++) {
-      here.loosen();
+      if (byDraws) {
+        here.loosen();
+      }
       here.passHour();
     }
     return here.level;
@@ -924,22 +921,23 @@ public final class DrownedBell {
     }
 
     int above(int note) {
-      return within(note, 0, NOTES - 1) ? wet[note] / divisor(note) : 0;
+      return within(note, 0, NOTES - 1) ? reduced(wet[note], wet[note], dry[note]) : 0;
     }
 
     int below(int note) {
-      return within(note, 0, NOTES - 1) ? Math.max(1, (wet[note] + dry[note]) / divisor(note)) : 1;
+      return within(note, 0, NOTES - 1) ? Math.max(1, reduced(wet[note] + dry[note], wet[note], dry[note])) : 1;
     }
 
-    private int divisor(int note) {
-      int a = wet[note] + dry[note];
-      int b = wet[note];
+    /** By what two numbers have in common, which their sum has, too. */
+    private static int reduced(int v, int one, int other) {
+      int a = one;
+      int b = other;
       for (int i = 0; i < GCD_TURNS && b > 0; i++) {
         int rest = a % b;
         a = b;
         b = rest;
       }
-      return Math.max(1, a);
+      return a > 0 ? v / a : 0;
     }
   }
 

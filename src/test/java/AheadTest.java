@@ -157,6 +157,9 @@ public final class AheadTest {
     x.hours(1);
     Due.is("24: 4 of 7, above", x.odds(1, 0), 4);
     Due.is("24: 4 of 7, below", x.odds(1, 1), 7);
+    x.hours(1);
+    Due.is("24: 4 of 8, above", x.odds(1, 0), 1);
+    Due.is("24: 4 of 8, below", x.odds(1, 1), 2);
     DrownedBell y = new DrownedBell();
     y.hours(9);
     Due.is("24: only dry, above", y.odds(0, 0), 0);

@@ -27,6 +27,8 @@ public final class ImagesTest {
     DrownedBell x = new DrownedBell();
     x.rain(0, 3, 9);
     x.rain(1, 2, 8);
+    x.rain(0, 5, 2);
+    x.rain(2, 11, 5);
     x.set(0, 5);
     x.set(2, 4);
     x.set(4, 3);
@@ -72,6 +74,7 @@ public final class ImagesTest {
     x.set(4, 0);
     x.set(3, 600);
     x.rain(1, 12, 9);
+    Due.text(x, 1, "0");
     x.hours(24);
     x.set(3, 17);
   }

@@ -61,6 +61,9 @@ public final class TextsTest {
     Due.text(x, 0, "1+2+3+4");
     Due.text(x, 0, "5");
     Due.is("16: nothing stays of the longer one", x.law(0, 0, 0, 0), 5);
+    Due.text(x, 0, "1+!!!!!4");
+    Due.text(x, 0, "5+1");
+    Due.is("16: no sign stays of the longer one", x.law(0, 0, 0, 0), 6);
     Due.is("16: fifty bytes", Due.text(x, 0, "1+1+1+1+1+1+1+1+1+1+1+1+1+1+1+1+1+1+1+1+1+1+1+1+10"), 1);
     Due.is("16: too early at 50", Due.text(x, 0, "1+1+1+1+1+1+1+1+1+1+1+1+1+1+1+1+1+1+1+1+1+1+1+1+1+"), -60);
   }
