@@ -160,6 +160,13 @@ public final class AheadTest {
     x.hours(1);
     Due.is("24: 4 of 8, above", x.odds(1, 0), 1);
     Due.is("24: 4 of 8, below", x.odds(1, 1), 2);
+    DrownedBell still = Due.steadyOne();
+    still.set(6, 1);
+    still.hours(4);
+    still.set(1, 1);
+    still.hours(6);
+    Due.is("24: 3 of 9 of note 0, above", still.odds(0, 0), 1);
+    Due.is("24: 3 of 9 of note 0, below", still.odds(0, 1), 3);
     DrownedBell y = new DrownedBell();
     y.hours(9);
     Due.is("24: only dry, above", y.odds(0, 0), 0);
