@@ -8,6 +8,7 @@ public final class AheadTest {
     thenWrong();
     thenFisher();
     beyondTheLastHour();
+    allBeyondTheLastHour();
     falls();
     book();
     odds();
@@ -102,6 +103,49 @@ public final class AheadTest {
     Due.is("25: level kept", x.gateFor(300, 300, 48), 0);
   }
 
+  /** In HOUR 9999 each of the AHEADS goes on. */
+  private static void allBeyondTheLastHour() {
+    DrownedBell x = new DrownedBell();
+    Due.text(x, 0, "9");
+    x.fisher(60, 0);
+    x.set(3, 600);
+    x.set(4, 0);
+    for (int i = 0; i < 41; i++) {
+      x.hours(240);
+    }
+    x.hours(159);
+    Due.is("18: none goes by", x.hours(1), Due.STATE);
+    x.set(4, 2);
+    x.rain(1, 16, 9);
+    Due.is("20: level", x.then(1, 4), 598);
+    Due.is("20: level behind 2", x.then(2, 4), 600);
+    Due.is("20: level behind 240", x.then(240, 4), 600 - 2 * 238 + 18 * 9);
+    Due.is("21: heard at most", x.thenFisher(2, 0, 4), 9999);
+    Due.is("21: latest", x.thenFisher(240, 0, 5), 1);
+    Due.is("26: shown", x.shown(4, 240), 71);
+    x.set(7, 1);
+    Due.is("22: falls", x.falls(240), 2);
+    x.set(7, 10);
+    Due.is("22: falls one day later", x.falls(240), 26);
+    Due.is("25: gate", x.gateFor(590, 600, 2), 0);
+    Due.is("25: gate behind 1", x.gateFor(0, 590, 1), 10);
+    Due.is("25: gate behind 2", x.gateFor(0, 590, 2), 14);
+    x.set(7, 9);
+    x.sheet(0, 8, 3);
+    x.put(0, 0, 1);
+    x.put(0, 1, 1);
+    x.put(0, 2, 1);
+    Due.is("34: judged", x.judge(0), 2);
+    x.tell(598);
+    x.tell(614);
+    Due.is("38: the second isn't so", x.check(), 2);
+    x.tell(598);
+    x.tell(600);
+    x.tell(598);
+    Due.is("38: all are so", x.check(), 0);
+    Due.is("39: hour as it was", x.count(0), 9999);
+  }
+
   private static void falls() {
     DrownedBell x = Due.steadyOne();
     x.set(7, 26);
@@ -118,6 +162,7 @@ public final class AheadTest {
     x.hours(1);
     x.set(7, 13);
     Due.is("22: now", x.falls(0), 0);
+    Due.is("22: now, though more is asked", x.falls(240), 0);
     Due.is("22: beyond below", x.falls(-1), Due.BEYOND);
     Due.is("22: beyond above", x.falls(241), Due.BEYOND);
     Due.is("22: told none", x.told(2), 3);

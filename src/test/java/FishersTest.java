@@ -8,12 +8,14 @@ public final class FishersTest {
     traits();
     hears();
     hearsNobody();
+    hearsFromFar();
     change();
     become();
     as();
     bids();
     bidsWrong();
     sell();
+    sellPays();
     sellNone();
     Due.end();
   }
@@ -96,6 +98,35 @@ public final class FishersTest {
     for (int kind = 0; kind < 7; kind++) {
       oneHears("0", 10 * kind, 0, 0);
     }
+  }
+
+  /** LOUD is far below 0; STRIKES are many. */
+  private static void hearsFromFar() {
+    oneHears("1", 9, 99, 0);
+    oneHears("9", 0, 90, 0);
+    oneHears("9", 0, 89, 1);
+    oneHears("1", 13, 99, 0);
+    oneHears("1", 10, 9, 1);
+    oneHears("1", 10, 10, 0);
+    oneHears("10", 19, 91, 0);
+    oneHears("10", 19, 90, 1);
+    oneHears("1", 20, 99, 0);
+    oneHears("20", 20, 99, 1);
+    oneHears("14", 20, 91, 0);
+    oneHears("14", 20, 90, 1);
+    oneHears("8", 30, 99, 0);
+    oneHears("20", 30, 99, 1);
+    oneHears("19", 30, 0, 0);
+    oneHears("1", 40, 99, 0);
+    oneHears("9", 40, 90, 0);
+    oneHears("9", 41, 90, 1);
+    oneHears("8", 49, 99, 1);
+    oneHears("9", 50, 99, 1);
+    oneHears("8", 50, 0, 0);
+    oneHears("20", 50, 99, 1);
+    oneHears("20", 59, 99, 1);
+    oneHears("20", 60, 0, 1);
+    oneHears("1", 69, 99, 1);
   }
 
   private static void change() {
@@ -204,6 +235,38 @@ public final class FishersTest {
     x.change(1, 3, 0);
     Due.is("14: alone", x.sell(), 2);
     Due.is("14: pays nothing", x.ofFisher(2, 3), 10);
+  }
+
+  private static void sellPays() {
+    DrownedBell x = Due.steadyOne();
+    Due.text(x, 0, "9");
+    x.fisher(51, 0);
+    x.fisher(61, 0);
+    x.fisher(20, 0);
+    x.hours(2);
+    Due.is("14: 6 is most", x.sell(), 1);
+    Due.is("14: pays 0, as STONE has not heard", x.ofFisher(1, 3), 20);
+    x.become(0, 10);
+    x.hours(1);
+    x.change(0, 3, 6);
+    Due.is("14: 6 by 6, held by a purse", x.sell(), 0);
+    Due.is("14: all that was in the purse", x.ofFisher(0, 3), 0);
+    Due.is("14: none is paid to the other", x.ofFisher(1, 3), 20);
+    Due.is("14: the other one, ahead of 0", x.sell(), 1);
+    Due.is("14: pays 0 as the others bid 0", x.ofFisher(1, 3), 20);
+    Due.is("14: again, as latest stays", x.sell(), 1);
+    x.set(6, 1);
+    x.hours(1);
+    Due.is("14: latest nobody", x.sell(), Due.NONE);
+    x.set(6, 0);
+    x.hours(1);
+    Due.is("14: latest again", x.sell(), 1);
+    Due.text(x, 0, "4");
+    x.hours(1);
+    Due.is("14: odds of past are 0 by 1", x.odds(5, 0), 0);
+    Due.is("14: the diver bids 1 by them", x.sell(), 1);
+    x.become(1, 60);
+    Due.is("14: bids 0 by them", x.sell(), Due.NONE);
   }
 
   private static void sellNone() {

@@ -8,6 +8,9 @@ public final class HoursTest {
     strain();
     silt();
     spilt();
+    levelEdges();
+    siltEdges();
+    strainEdges();
     book();
     heard();
     dayTurns();
@@ -15,6 +18,8 @@ public final class HoursTest {
     wrong();
     loose();
     looseHeld();
+    looseEdges();
+    looseOverMidnight();
     looseToTheLastHour();
     looseWrong();
     Due.end();
@@ -94,6 +99,95 @@ public final class HoursTest {
     Due.is("18: spilt at most", x.now(9), 999999);
     x.hours(1);
     Due.is("18: spilt no more", x.now(9), 999999);
+  }
+
+  private static void levelEdges() {
+    DrownedBell x = Due.wetOne();
+    x.set(4, 0);
+    int[] ahead = {581, 582, 583};
+    int[] level = {599, 600, 600};
+    int[] spilt = {0, 0, 1};
+    for (int i = 0; i < ahead.length; i++) {
+      x.set(3, ahead[i]);
+      Due.is("18: full by " + ahead[i], x.hours(1), level[i]);
+      Due.is("18: spilt by " + ahead[i], x.now(9), spilt[i]);
+    }
+    DrownedBell y = new DrownedBell();
+    y.set(4, 90);
+    int[] before = {91, 90, 89, 0};
+    int[] behind = {1, 0, 0, 0};
+    for (int i = 0; i < before.length; i++) {
+      y.set(3, before[i]);
+      Due.is("18: let out of " + before[i], y.hours(1), behind[i]);
+    }
+    Due.text(y, 1, "0-g");
+    y.set(3, 50);
+    Due.is("18: less than nothing is let out", y.hours(1), 50);
+    Due.text(y, 1, "l*l");
+    Due.is("18: more than the level is let out", y.hours(1), 0);
+    y.rain(1, 6, 9);
+    y.set(3, 600);
+    Due.is("18: let out ahead of the flow", y.hours(1), 18);
+    Due.is("18: nothing is spilt so", y.now(9), 0);
+  }
+
+  private static void siltEdges() {
+    DrownedBell x = new DrownedBell();
+    Due.text(x, 0, "s/9*3");
+    for (int hour = 0; hour < 24; hour++) {
+      x.rain(0, hour, 9);
+    }
+    x.set(5, 80);
+    x.set(6, 1);
+    x.hours(1);
+    Due.is("18: silt 89", x.now(6), 89);
+    x.set(5, 81);
+    x.hours(1);
+    Due.is("18: silt 90", x.now(6), 90);
+    x.set(5, 82);
+    x.hours(1);
+    Due.is("18: silt 91 held", x.now(6), 90);
+    x.set(6, 0);
+    x.hours(1);
+    Due.is("18: 90 and 9 less 20", x.now(6), 79);
+    Due.text(x, 0, "10");
+    x.set(5, 1);
+    x.hours(1);
+    Due.is("18: 1 and 9 less 10", x.now(6), 0);
+    x.hours(1);
+    Due.is("18: 0 and 9 less 10", x.now(6), 0);
+    Due.text(x, 0, "9");
+    x.hours(1);
+    Due.is("18: 0 and 9 less 9", x.now(6), 0);
+    Due.text(x, 0, "8");
+    x.hours(1);
+    Due.is("18: 0 and 9 less 8", x.now(6), 1);
+  }
+
+  private static void strainEdges() {
+    DrownedBell x = Due.steadyOne();
+    Due.text(x, 0, "9");
+    x.fisher(0, 0);
+    x.set(7, 14);
+    x.hours(1);
+    Due.is("18: 13 below 14", x.now(8), 1);
+    Due.is("18: it rings yet", x.now(2), 9);
+    x.hours(1);
+    Due.is("18: 26", x.now(7), 26);
+    Due.is("18: the hour in which it falls is heard", x.ofFisher(0, 4), 2);
+    Due.is("18: the hour in which it falls has a note", x.now(10), 1);
+    Due.is("18: fallen", x.now(8), 0);
+    x.hours(1);
+    Due.is("18: the fallen isn't heard", x.ofFisher(0, 4), 2);
+    Due.is("18: the fallen is not latest", x.ofFisher(0, 5), 0);
+    Due.is("18: the fallen has no note", x.now(10), 0);
+    x.set(7, 26);
+    Due.is("18: 26 at 26", x.now(8), 0);
+    x.set(7, 27);
+    Due.is("18: 26 at 27", x.now(8), 1);
+    x.set(6, 1);
+    x.hours(1);
+    Due.is("18: the muffled one is strained, too", x.now(7), 39);
   }
 
   private static void book() {
@@ -210,6 +304,49 @@ public final class HoursTest {
     for (int what = 0; what < 13; what++) {
       Due.is("19: 240 as 240 times one " + what, y.now(what), z.now(what));
     }
+  }
+
+  /** Each draw by 3 is told by what it adds; of 0 and of 9 nothing goes beyond. */
+  private static void looseEdges() {
+    int[] ahead = {0, 1, 5, 8, 9};
+    for (int v : ahead) {
+      DrownedBell x = new DrownedBell();
+      int z = 1;
+      for (int hour = 0; hour < 24; hour++) {
+        for (int stream = 0; stream < 3; stream++) {
+          x.rain(stream, hour, v);
+        }
+      }
+      x.loose(24);
+      for (int hour = 0; hour < 24; hour++) {
+        for (int stream = 0; stream < 3; stream++) {
+          z = z * 1103515245 + 12345;
+          int want = v + (int) ((z & 0xFFFFFFFFL) / 256 % 3) - 1;
+          Due.is("19: " + v + " in hour " + hour + " of stream " + stream, x.rain(stream, hour, 0),
+              want < 0 ? 0 : want > 9 ? 9 : want);
+        }
+      }
+      Due.is("19: z behind 72 draws", x.count(7), z);
+    }
+  }
+
+  private static void looseOverMidnight() {
+    DrownedBell x = new DrownedBell();
+    x.hours(23);
+    x.loose(2);
+    DrownedBell y = new DrownedBell();
+    y.hours(23);
+    y.loose(1);
+    y.loose(1);
+    for (int stream = 0; stream < 3; stream++) {
+      int last = x.rain(stream, 23, 0);
+      Due.is("19: the last hour of the day, stream " + stream, y.rain(stream, 23, 0), last);
+      int first = x.rain(stream, 0, 0);
+      Due.is("19: the first hour of the next, stream " + stream, y.rain(stream, 0, 0), first);
+      Due.is("19: no other hour, stream " + stream, x.rain(stream, 1, 0), 0);
+      Due.is("19: nor the one ahead, stream " + stream, x.rain(stream, 22, 0), 0);
+    }
+    Due.is("19: six draws", x.count(7), y.count(7));
   }
 
   private static void looseToTheLastHour() {

@@ -8,8 +8,12 @@ public final class ImagesTest {
     imageKeeps();
     imageLeaves();
     imageAgain();
+    imageOfTheFull();
+    imageOfTheNew();
+    restoreFromTheLastHour();
     tell();
     check();
+    checkEdges();
     count();
     told();
     Due.end();
@@ -142,6 +146,87 @@ public final class ImagesTest {
     Due.is("36: how often stays", x.image(), 3);
   }
 
+  /** What was full is full again. */
+  private static void imageOfTheFull() {
+    DrownedBell x = new DrownedBell();
+    for (int i = 0; i < 8; i++) {
+      x.fisher(i, i);
+    }
+    for (int i = 0; i < 20; i++) {
+      x.tell(295 - 5 * i);
+    }
+    Due.feed(x, "1+1+1+1+1+1+1+1+1+1+1+1+1+1+1+1+1+1+1+1+1+1+1+1+10");
+    x.image();
+    Due.is("38: all are so", x.check(), 0);
+    Due.is("16: taken", x.text(0), 1);
+    Due.is("36: hour 0", x.restore(), 0);
+    Due.is("36: full of fishers", x.fisher(0, 0), Due.FULL);
+    Due.is("36: full of numbers", x.tell(0), Due.FULL);
+    Due.is("36: full of bytes", x.feed(0, 1), Due.FULL);
+    Due.is("36: told three times", x.told(4), 3);
+    Due.is("36: without the text", x.law(0, 9, 0, 0), 5);
+    Due.is("38: all are so again", x.check(), 0);
+    Due.is("16: taken again", x.text(0), 1);
+    Due.is("17: gives", x.law(0, 9, 0, 0), 20);
+  }
+
+  /** What was empty is empty again, and what comes then is new. */
+  private static void imageOfTheNew() {
+    DrownedBell x = new DrownedBell();
+    x.image();
+    Due.text(x, 0, "9");
+    Due.text(x, 1, "1");
+    x.fisher(61, 7);
+    x.change(0, 3, 99);
+    x.rain(1, 0, 9);
+    x.hours(30);
+    x.tell(4);
+    x.feed(0x31, 1);
+    x.seed(8);
+    x.set(6, 1);
+    Due.is("36: hour 0", x.restore(), 0);
+    int[] counts = {0, 0, 0, 0, 0, 0, 0, 1};
+    for (int what = 0; what < 8; what++) {
+      Due.is("36: count " + what, x.count(what), counts[what]);
+    }
+    int[] readings = {0, 0, 0, 0, 300, 5, 0, 0, 1, 0, 0, 0, 500};
+    for (int what = 0; what < 13; what++) {
+      Due.is("36: now " + what, x.now(what), readings[what]);
+    }
+    for (int note = 0; note <= 9; note++) {
+      Due.is("36: book of " + note, x.book(note, 0) + x.book(note, 1), 0);
+    }
+    Due.is("36: rings without a text", x.law(0, 20, 30, 0), 13);
+    Due.is("36: lets without a text", x.law(1, 50, 9, 7), 7);
+    Due.is("36: nobody", x.ofFisher(0, 0), Due.BEYOND);
+    Due.is("8: the first", x.fisher(22, 3), 0);
+    int[] traits = {2, 2, 3, 20, 0, 0, 0, 0};
+    for (int what = 0; what < 8; what++) {
+      Due.is("8: as new " + what, x.ofFisher(0, what), traits[what]);
+    }
+    Due.is("16: the tape is empty", x.text(0), -10);
+    Due.is("38: none waits", x.check(), 0);
+    x.hours(1);
+    Due.is("18: no hour ahead of the first", x.book(0, 0), 0);
+  }
+
+  private static void restoreFromTheLastHour() {
+    DrownedBell x = new DrownedBell();
+    for (int i = 0; i < 41; i++) {
+      x.hours(240);
+    }
+    x.hours(158);
+    x.image();
+    x.hours(1);
+    Due.is("18: none behind the last", x.hours(1), Due.STATE);
+    Due.is("36: the last but one", x.restore(), 9998);
+    Due.is("18: two are too many", x.hours(2), Due.STATE);
+    Due.is("18: one goes by", x.hours(1), 0);
+    Due.is("18: none behind the last again", x.loose(1), Due.STATE);
+    x.image();
+    Due.is("36: the last", x.restore(), 9999);
+  }
+
   private static void tell() {
     DrownedBell x = new DrownedBell();
     for (int i = 1; i <= 20; i++) {
@@ -178,6 +263,24 @@ public final class ImagesTest {
     x.hours(1);
     x.tell(290);
     Due.is("38: from now on", x.check(), 0);
+  }
+
+  private static void checkEdges() {
+    DrownedBell x = Due.wetOne();
+    int[] wrong = {Integer.MIN_VALUE, Integer.MAX_VALUE, -1, 601, 312, 314};
+    for (int v : wrong) {
+      x.tell(v);
+      Due.is("38: " + v + " is not so", x.check(), 1);
+      Due.is("38: " + v + " waits no more", x.count(5), 0);
+    }
+    x.tell(313);
+    Due.is("38: one is so", x.check(), 0);
+    for (int place = 0; place < 20; place++) {
+      for (int i = 0; i < 20; i++) {
+        x.tell(300 + 13 * (i + 1) + (i == place ? 1 : 0));
+      }
+      Due.is("38: the place " + place, x.check(), 1 + place);
+    }
   }
 
   private static void count() {

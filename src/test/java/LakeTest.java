@@ -10,6 +10,8 @@ public final class LakeTest {
     setWrong();
     now();
     nowByLaw();
+    currentEdges();
+    flowEdges();
     led();
     thing();
     shows();
@@ -173,6 +175,64 @@ public final class LakeTest {
     x.hours(1);
     Due.is("4: past", x.now(10), 1);
     Due.is("4: spilt more", x.now(9), 35);
+  }
+
+  private static void currentEdges() {
+    DrownedBell x = new DrownedBell();
+    x.set(1, 1);
+    int[] levels = {0, 59, 60, 119, 120, 540, 599, 600};
+    int[] takes = {0, 0, 1, 1, 2, 9, 9, 10};
+    for (int i = 0; i < levels.length; i++) {
+      x.set(3, levels[i]);
+      x.rain(1, 0, 0);
+      Due.is("4: no flow, level " + levels[i], x.now(1), 0);
+      x.rain(1, 0, 9);
+      Due.is("4: flow 9, level " + levels[i], x.now(1), Math.max(0, 9 - takes[i]));
+    }
+    x.rain(2, 0, 1);
+    Due.is("4: flow 11 at level 600", x.now(1), 1);
+    x.rain(1, 0, 8);
+    Due.is("4: flow 10 at level 600", x.now(1), 0);
+    x.rain(1, 0, 7);
+    Due.is("4: flow 9 at level 600", x.now(1), 0);
+  }
+
+  private static void flowEdges() {
+    DrownedBell x = new DrownedBell();
+    for (int stream = 0; stream < 3; stream++) {
+      x.set(stream, 5);
+      x.rain(stream, 0, 9);
+    }
+    Due.is("4: the most flow", x.now(0), 135);
+    x.set(3, 0);
+    Due.is("4: the most current", x.now(1), 135);
+    Due.is("4: the most strikes", x.now(2), 20);
+    Due.text(x, 0, "c-115");
+    Due.is("4: 20 strikes not held", x.now(2), 20);
+    Due.text(x, 0, "c-114");
+    Due.is("4: 21 strikes held", x.now(2), 20);
+    Due.text(x, 0, "c-134");
+    Due.is("4: one strike", x.now(2), 1);
+    Due.is("4: note of one", x.now(3), 2);
+    Due.text(x, 0, "c-135");
+    Due.is("4: no strike", x.now(2), 0);
+    Due.is("4: no note", x.now(3), 0);
+    Due.text(x, 0, "c-136");
+    Due.is("4: less than none", x.now(2), 0);
+    x.set(5, 90);
+    Due.is("4: no note by silt alone", x.now(3), 0);
+    DrownedBell y = new DrownedBell();
+    Due.is("4: without a text, no strike", y.now(2), 0);
+    y.set(3, 0);
+    y.rain(1, 0, 2);
+    Due.is("4: without a text, current 4", y.now(2), 0);
+    y.set(1, 5);
+    y.rain(1, 0, 1);
+    Due.is("4: without a text, current 5", y.now(2), 1);
+    y.set(5, 9);
+    Due.is("4: without a text, silt 9", y.now(2), 1);
+    y.set(5, 10);
+    Due.is("4: without a text, silt 10", y.now(2), 0);
   }
 
   private static void led() {

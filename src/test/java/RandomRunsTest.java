@@ -1,16 +1,17 @@
-/** Runs of drawn calls, 512 on each object, against the Model. */
+/** Runs of drawn calls, at most 512 on each object, against the Model. */
 public final class RandomRunsTest {
   private static final String[] CALLS = {"rain", "set", "now", "led", "thing", "shows", "fisher", "ofFisher",
       "change", "become", "as", "bids", "sell", "feed", "text", "law", "hours", "loose", "then", "thenFisher", "falls",
       "book", "odds", "gateFor", "shown", "seed", "voice", "trace", "sheet", "put", "move", "rains", "judge", "image",
       "restore", "tell", "check", "count", "told"};
-  private static final int OBJECTS = 600;
+  private static final int OBJECTS = 800;
   private static final int RUN = 512;
 
   private final Draws draws;
   private final DrownedBell x = new DrownedBell();
   private final Model y = new Model();
   private String call = "";
+  private int calls;
   private long got;
   private long want;
 
@@ -27,7 +28,7 @@ public final class RandomRunsTest {
 
   /** Every tenth object is old: its last HOUR is near. */
   private void growOld() {
-    for (int i = 0; i < 41; i++) {
+    for (; calls < 41; calls++) {
       x.hours(240);
       y.hours(240);
     }
@@ -37,11 +38,10 @@ public final class RandomRunsTest {
     if (number % 10 == 9) {
       growOld();
     }
-    for (int i = 0; i < RUN; i++) {
+    while (calls < RUN) {
       int which = draws.below(CALLS.length + 3);
       if (which >= CALLS.length) {
         wholeText();
-        i += 8;
       } else if (which < 18) {
         one(which);
       } else if (which < 27) {
@@ -50,7 +50,7 @@ public final class RandomRunsTest {
         other(which);
       }
       if (got != want) {
-        Due.is("object " + number + " call " + i + ": " + call, got, want);
+        Due.is("object " + number + " call " + calls + ": " + call, got, want);
         return;
       }
     }
@@ -63,6 +63,7 @@ public final class RandomRunsTest {
       s.append(' ').append(a);
     }
     call = s.toString();
+    calls++;
     got = mine;
     want = due;
   }
@@ -70,6 +71,10 @@ public final class RandomRunsTest {
   private void wholeText() {
     int use = draws.near(0, 1);
     String t = draws.text(use == 1 ? "lfg" : "csl", 3);
+    if (calls + t.length() + 2 > RUN) {
+      return;
+    }
+    calls += t.length() + 2;
     x.text(0);
     y.text(0);
     for (int i = 0; i < t.length(); i++) {
@@ -218,7 +223,7 @@ public final class RandomRunsTest {
         answer(which, x.odds(a, b), y.odds(a, b), a, b);
         break;
       case 23:
-        int level = x.now(4);
+        int level = y.now(4);
         a = draws.below(3) == 0 ? draws.near(0, 600) : Math.max(0, level - draws.below(60));
         b = draws.below(3) == 0 ? draws.near(0, 600) : Math.min(600, level + draws.below(60));
         c = draws.near(1, draws.below(3) == 0 ? 48 : 6);
@@ -257,7 +262,7 @@ public final class RandomRunsTest {
         break;
       case 29:
         b = draws.near(0, draws.below(2) == 0 ? 39 : 3);
-        c = draws.below(2) == 0 ? draws.wild() : x.then(Math.max(0, b), 3);
+        c = draws.below(2) == 0 ? draws.wild() : y.then(Math.max(0, b), 3);
         answer(which, x.put(a, b, c), y.put(a, b, c), a, b, c);
         break;
       case 30:
@@ -281,7 +286,7 @@ public final class RandomRunsTest {
         answer(which, x.restore(), y.restore());
         break;
       case 35:
-        b = draws.below(4) == 0 ? draws.wild() : x.then(x.count(5) + 1, 4);
+        b = draws.below(4) == 0 ? draws.wild() : y.then(y.count(5) + 1, 4);
         answer(which, x.tell(b), y.tell(b), b);
         break;
       case 36:

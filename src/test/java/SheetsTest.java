@@ -12,8 +12,12 @@ public final class SheetsTest {
     moveOrder();
     rains();
     rainsEdges();
+    rainsDay();
+    moveEdges();
+    putEdges();
     judge();
     judgeMuffled();
+    judgeLeaves();
     Due.end();
   }
 
@@ -181,6 +185,114 @@ public final class SheetsTest {
       Due.is("33: beyond " + w[0] + " " + w[1], x.rains(w[0], w[1]), Due.BEYOND);
     }
     Due.is("33: missing", x.rains(1, 0), Due.NONE);
+  }
+
+  /** What stands at the 24th place and behind it. */
+  private static void rainsDay() {
+    int[] sizes = {0, 1, 23, 24, 25, 40};
+    for (int n : sizes) {
+      DrownedBell x = new DrownedBell();
+      x.sheet(0, 8, n);
+      Due.is("33: of " + n, x.rains(0, 1), Math.min(n, 24));
+    }
+    DrownedBell x = new DrownedBell();
+    x.sheet(0, 8, 25);
+    x.put(0, 24, 10);
+    Due.is("33: the 25th doesn't matter", x.rains(0, 0), 24);
+    x.put(0, 23, 10);
+    Due.is("33: the 24th does", x.rains(0, 0), 23);
+    x.put(0, 23, 9);
+    Due.is("33: 9 at the 24th", x.rains(0, 0), 24);
+    Due.is("33: the last hour of the day", x.rain(0, 23, 0), 9);
+    x.put(0, 0, 10);
+    Due.is("33: none came", x.rains(0, 1), 0);
+    Due.is("33: none changed", x.rain(1, 23, 0), 0);
+    x.sheet(1, 32, 2);
+    x.put(1, 0, Integer.MIN_VALUE);
+    Due.is("33: the least", x.rains(1, 0), 0);
+    x.put(1, 0, Integer.MAX_VALUE);
+    Due.is("33: the most", x.rains(1, 0), 0);
+    x.put(1, 0, 0);
+    x.put(1, 1, 255);
+    Due.is("33: 255", x.rains(1, 0), 1);
+  }
+
+  private static void moveEdges() {
+    DrownedBell x = new DrownedBell();
+    x.sheet(0, 8, 0);
+    Due.is("32: none of none", x.move(0, 0, 0, 0, 0), 0);
+    Due.is("32: one of none", x.move(0, 0, 0, 0, 1), Due.BEYOND);
+    Due.is("32: none behind none", x.move(0, 1, 0, 0, 0), Due.BEYOND);
+    x.sheet(1, 8, 40);
+    for (int i = 0; i < 40; i++) {
+      x.put(1, i, i < 24 ? i % 10 : 0);
+    }
+    Due.is("32: all on themselves", x.move(1, 0, 1, 0, 40), 40);
+    Due.is("32: none to none", x.move(1, 40, 0, 0, 0), 0);
+    Due.is("32: one to none", x.move(1, 0, 0, 0, 1), Due.BEYOND);
+    Due.is("32: as it was", x.rains(1, 0), 24);
+    for (int hour = 0; hour < 24; hour++) {
+      Due.is("32: as it was " + hour, x.rain(0, hour, 0), hour % 10);
+    }
+    Due.is("32: up by one", x.move(1, 0, 1, 1, 39), 39);
+    x.rains(1, 0);
+    for (int hour = 0; hour < 24; hour++) {
+      Due.is("32: up by one " + hour, x.rain(0, hour, 0), hour == 0 ? 0 : (hour - 1) % 10);
+    }
+    Due.is("32: down by two", x.move(1, 2, 1, 0, 38), 38);
+    x.rains(1, 0);
+    for (int hour = 0; hour < 23; hour++) {
+      Due.is("32: down by two " + hour, x.rain(0, hour, 0), (hour + 1) % 10);
+    }
+    Due.is("32: the last to the first", x.move(1, 39, 1, 0, 1), 1);
+    Due.is("32: the first to the last", x.move(1, 0, 1, 39, 1), 1);
+    Due.is("32: one behind the last", x.move(1, 0, 1, 40, 1), Due.BEYOND);
+    x.sheet(2, 16, 2);
+    x.sheet(3, 32, 2);
+    Due.is("32: 16 and 32 bits", x.move(2, 0, 3, 0, 1), Due.KIND);
+    Due.is("32: 8 and 32 bits, none", x.move(1, 0, 3, 0, 0), Due.KIND);
+  }
+
+  private static void putEdges() {
+    int[] bits = {8, 16};
+    for (int b : bits) {
+      DrownedBell x = new DrownedBell();
+      x.sheet(0, b, 5);
+      int round = 1 << b;
+      int[] v = {round, round + 9, -round, Integer.MIN_VALUE, round - 1};
+      for (int i = 0; i < v.length; i++) {
+        Due.is("31: put " + v[i] + " of " + b, x.put(0, i, v[i]), 1);
+      }
+      seen("31: lowest " + b, x, 0, 0, 9, 0, 0, -1);
+    }
+    DrownedBell x = new DrownedBell();
+    x.sheet(0, 32, 4);
+    int[] v = {1 << 8, 1 << 16, Integer.MIN_VALUE, -1};
+    for (int i = 0; i < v.length; i++) {
+      x.put(0, 0, v[i]);
+      Due.is("31: all 32 of " + v[i], x.rains(0, 0), 0);
+    }
+    x.put(0, 0, 9);
+    Due.is("31: 9 of 32", x.rains(0, 0), 4);
+  }
+
+  private static void judgeLeaves() {
+    DrownedBell x = Due.wetOne();
+    x.fisher(60, 0);
+    x.sheet(0, 16, 40);
+    for (int i = 0; i < 40; i++) {
+      x.put(0, i, x.then(i, 3));
+    }
+    Due.is("34: forty notes", x.judge(0), 40);
+    Due.is("34: level as it was", x.now(4), 300);
+    Due.is("34: nobody heard", x.count(2), 0);
+    Due.is("34: strain as it was", x.now(7), 0);
+    x.put(0, 39, 10);
+    Due.is("34: 10 is no note", x.judge(0), 39);
+    x.put(0, 39, x.then(39, 3) + 256);
+    Due.is("34: all 16 bits", x.judge(0), 39);
+    x.put(0, 0, -1);
+    Due.is("34: -1 is no note", x.judge(0), 0);
   }
 
   private static void judge() {

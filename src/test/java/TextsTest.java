@@ -8,6 +8,8 @@ public final class TextsTest {
     textTaken();
     faults();
     faultsOfNames();
+    faultsOfBytes();
+    tapeAgain();
     open();
     lawRings();
     lawLets();
@@ -127,6 +129,53 @@ public final class TextsTest {
     }
   }
 
+  private static void byteFault(DrownedBell x, String ahead, int b, int want) {
+    Due.feed(x, ahead);
+    x.feed(b, 1);
+    Due.is("16: " + ahead + " and byte " + b, x.text(0), want < 0 ? 1 : -10 - want);
+  }
+
+  /** Each byte where a Q begins, and behind one. */
+  private static void faultsOfBytes() {
+    DrownedBell first = new DrownedBell();
+    DrownedBell second = new DrownedBell();
+    for (int b = 0; b < 256; b++) {
+      boolean digit = b >= '0' && b <= '9';
+      boolean name = b == 'c' || b == 's' || b == 'l';
+      boolean opens = b == '!' || b == '(';
+      byteFault(first, "", b, digit || name ? -1 : opens ? 1 : 0);
+      if (b % 2 == 0) {
+        byteFault(second, "7", b, digit ? -1 : "|&<=>+-*/%".indexOf(b) >= 0 ? 2 : 1);
+      }
+    }
+    DrownedBell third = new DrownedBell();
+    for (int b = 1; b < 256; b += 2) {
+      boolean digit = b >= '0' && b <= '9';
+      byteFault(third, "7", b, digit ? -1 : "|&<=>+-*/%".indexOf(b) >= 0 ? 2 : 1);
+    }
+  }
+
+  private static void tapeAgain() {
+    DrownedBell x = new DrownedBell();
+    for (int i = 0; i < 6; i++) {
+      x.feed(0x2B312B312B312B31L, 8);
+    }
+    x.feed(0x3232, 2);
+    Due.is("15: full", x.feed('2', 1), Due.FULL);
+    Due.is("16: fifty bytes", x.text(0), 1);
+    Due.is("16: all of them are read", x.law(0, -30, 0, 0), 20);
+    Due.is("15: from 1 again", x.feed('1', 1), 1);
+    Due.is("16: none of the old", x.text(0), 1);
+    Due.is("16: only the new", x.law(0, 0, 0, 0), 1);
+    for (int i = 0; i < 6; i++) {
+      x.feed(0x2828282828282828L, 8);
+    }
+    Due.is("16: the sixth that opens", x.text(1), -15);
+    Due.is("15: empty behind a fault", x.feed(0x67, 1), 1);
+    Due.is("16: read from the first byte", x.text(1), 1);
+    Due.is("16: g", x.law(1, 99, 0, 12), 12);
+  }
+
   private static void open() {
     fault("!!!!!!1", 5);
     fault("((((((1))))))", 5);
@@ -184,6 +233,32 @@ public final class TextsTest {
     rings("4=3", 0);
     rings("5>4", 1);
     rings("4>4", 0);
+    rings("5<4", 0);
+    rings("3>4", 0);
+    rings("3=4", 0);
+    rings("l<1", 1);
+    rings("1<l", 0);
+    rings("l>1", 0);
+    rings("1>l", 1);
+    rings("l=0-5", 1);
+    rings("9999<9999+1", 1);
+    rings("0=0000", 1);
+    rings("19+1", 20);
+    rings("19+2", 20);
+    rings("0-1", 0);
+    rings("l|0", 1);
+    rings("l&l", 1);
+    rings("!l", 0);
+    rings("0/5", 0);
+    rings("0%5", 0);
+    rings("0/0", 0);
+    rings("0%0", 0);
+    rings("l/0+3", 3);
+    rings("l%0+3", 3);
+    rings("l/3+9", 8);
+    rings("7/(0-2)+9", 6);
+    rings("7%(0-2)+9", 10);
+    rings("c/c*c%5", 2);
     rings("l<0", 1);
     rings("1+1<2+1", 1);
     rings("(3>2)+(2>1)+5", 7);
@@ -218,9 +293,17 @@ public final class TextsTest {
     Due.is("17: rings by silt", x.law(0, 20, 39, 99), 13);
     Due.is("17: rings by silt below 0", x.law(0, 10, -39, 99), 9);
     Due.is("17: rings held", x.law(0, 3, 0, 0), 0);
+    Due.is("17: rings once", x.law(0, 5, 9, 0), 1);
+    Due.is("17: rings by silt, once less", x.law(0, 5, 10, 0), 0);
+    Due.is("17: rings 20", x.law(0, 24, 0, 0), 20);
+    Due.is("17: rings 21", x.law(0, 25, 0, 0), 20);
     Due.is("17: rings wrap", x.law(0, Integer.MIN_VALUE, 0, 0), 20);
     Due.is("17: lets", x.law(1, 50, 9, 7), 7);
     Due.is("17: lets held", x.law(1, 6, 9, 7), 6);
+    Due.is("17: lets all", x.law(1, 7, 9, 7), 7);
+    Due.is("17: lets of a level of 0", x.law(1, 0, 9, 7), 0);
+    Due.is("17: lets by the most", x.law(1, Integer.MAX_VALUE, 0, Integer.MAX_VALUE), Integer.MAX_VALUE);
+    Due.is("17: lets of the least level", x.law(1, Integer.MIN_VALUE, 0, Integer.MAX_VALUE), 0);
     Due.is("17: lets held at 0", x.law(1, 6, 9, -7), 0);
     Due.is("17: lets of a level below 0", x.law(1, -6, 9, 7), 0);
   }

@@ -7,6 +7,8 @@ public final class VoicesTest {
     seed();
     voices();
     voicesGoRound();
+    allGoRound();
+    traceOfTheLatest();
     voiceWrong();
     Due.end();
   }
@@ -88,6 +90,52 @@ public final class VoicesTest {
     Due.is("28: round down", x.voice(0, 2, Integer.MIN_VALUE), 2147483639);
     Due.is("28: no error though so low", x.voice(0, 0, Due.BEYOND), Due.BEYOND);
     Due.is("28: told nothing", x.told(1), 0);
+  }
+
+  /** Each act of each KIND in one line, for numbers that go round; the last of FISHERS, the greatest m. */
+  private static void allGoRound() {
+    int[] numbers = {Integer.MIN_VALUE, Integer.MIN_VALUE + 1, -1, 0, 1 << 29, 715827883, 1 << 30, Integer.MAX_VALUE - 1,
+        Integer.MAX_VALUE};
+    DrownedBell x = new DrownedBell();
+    for (int i = 0; i < 8; i++) {
+      x.fisher(0, 0);
+    }
+    int n = 7;
+    int m = 9;
+    for (int kind = 0; kind < 7; kind++) {
+      x.become(7, 10 * kind + m);
+      for (int v : numbers) {
+        int hears = kind == 2 || kind == 5 ? (v + n) * 3 : v + n;
+        int rows = kind == 3 ? -(v - m) : kind == 6 ? -(v - m) ^ n : v - m;
+        int bids = kind == 1 ? hears * 2 - (1 - m) : kind == 4 ? (hears + 1) * 2 - (1 - m) : hears * 2;
+        int plain = bids ^ rows;
+        int tells = kind == 5 ? plain - (2 + n) * 3 : kind == 6 ? bids - plain : plain;
+        int[] want = {hears, bids, rows, tells};
+        for (int act = 0; act < 4; act++) {
+          Due.is("28: kind " + kind + " act " + act + " of " + v, x.voice(7, act, v), want[act]);
+        }
+      }
+    }
+    Due.is("28: any number is no error", x.told(1), 0);
+  }
+
+  private static void traceOfTheLatest() {
+    DrownedBell x = new DrownedBell();
+    x.fisher(60, 0);
+    x.fisher(0, 0);
+    x.voice(0, 3, 1);
+    Due.is("29: nine bodies", x.count(6), 9);
+    Due.is("29: the last", x.trace(8), 12);
+    Due.is("29: behind the last", x.trace(9), Due.NONE);
+    x.voice(1, 0, 1);
+    Due.is("29: one body", x.count(6), 1);
+    Due.is("29: that one", x.trace(0), 10);
+    Due.is("29: none of the longer one ahead", x.trace(1), Due.NONE);
+    x.become(1, 22);
+    Due.is("29: as they began then", x.trace(0), 10);
+    x.image();
+    x.restore();
+    Due.is("29: restored, it stays", x.count(6), 1);
   }
 
   private static void voiceWrong() {

@@ -3,8 +3,9 @@
  * tells. A second object gets only the calls that the first one answered without an ERROR: both stay alike.
  */
 public final class WildTest {
-  private static final int OBJECTS = 400;
-  private static final int RUN = 512;
+  private static final int OBJECTS = 600;
+  /** What is seen of both objects at the end takes some 200 calls more, of 512. */
+  private static final int RUN = 300;
   private static final int CALLS = 39;
 
   private WildTest() {
