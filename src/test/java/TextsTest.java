@@ -12,6 +12,8 @@ public final class TextsTest {
     tapeAgain();
     open();
     lawRings();
+    lawTruth();
+    lawDeep();
     lawLets();
     lawWithout();
     Due.end();
@@ -266,6 +268,37 @@ public final class TextsTest {
     rings("9999*9999*9999<0", 1);
     rings("9999*9999*9999%17+17", 15);
     rings("0012", 12);
+  }
+
+  /** What is true is 1, what isn't is 0, and no other number. */
+  private static void lawTruth() {
+    String[] yes = {"3<4", "4=4", "5>4", "l<s", "2&4", "l&l", "2|0", "0|l", "!0", "!!l", "(1<2)=1", "!(4<4)"};
+    String[] no = {"4<4", "5<4", "4=5", "4>4", "3>4", "s<l", "2&0", "0&2", "0&0", "0|0", "!7", "!l", "!(4=4)"};
+    for (String text : yes) {
+      Due.is("17: true " + text, textGives(text), 8);
+    }
+    for (String text : no) {
+      Due.is("17: not true " + text, textGives(text), 7);
+    }
+  }
+
+  private static int textGives(String text) {
+    DrownedBell x = new DrownedBell();
+    Due.is("16: (" + text + ")+7", Due.text(x, 0, "(" + text + ")+7"), 1);
+    return x.law(0, 7, 13, -5);
+  }
+
+  /** As many numbers as can wait for their signs. */
+  private static void lawDeep() {
+    String part = "0|1&1<1+1*(";
+    String ahead = part + part + part + part;
+    rings(ahead + "1))))", 1);
+    rings(ahead + "0))))", 0);
+    rings("(((((20)))))", 20);
+    rings("!!!!!0", 1);
+    rings("!(!(!0))", 1);
+    rings("20-(19-(18-(17-(16-(15)))))", 3);
+    rings("3*(2+(1|(4&(5<6))))", 9);
   }
 
   private static void lawLets() {
