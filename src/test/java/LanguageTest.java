@@ -23,10 +23,27 @@ public final class LanguageTest {
       "int sheet(int,int,int)", "int put(int,int,int)", "int move(int,int,int,int,int)", "int rains(int,int)",
       "int judge(int)", "int image()", "int restore()", "int tell(int)", "int check()", "int count(int)",
       "int told(int)"};
-  private static final String[] FORBIDDEN = {"throw", "throws", "try", "catch", "synchronized", "assert", "equals",
-      "hashCode", "toString", "Exact", "package", "protected", "record", "Object", "Thread", "System\\.(?!arraycopy)",
-      "Math\\.(?!max|min|abs|floorMod|floorDiv)", "Arrays\\.(?!fill|copyOf|copyOfRange)", "->", "::", "NaN", "@",
-      "float", "double", "new \\w+\\s*\\([^)]*\\)\\s*\\{"};
+  /** The number of a rule, and what a source that keeps to it doesn't hold. */
+  private static final String[][] FORBIDDEN = {
+      {"1", "^\\s*package\\b"},
+      {"2", "::"},
+      {"2", "\\bnew \\w+\\s*\\([^)]*\\)\\s*\\{"},
+      {"3", "\\bNaN\\b"},
+      {"4", "\\bSystem\\s*\\.\\s*(?!arraycopy\\b)"},
+      {"4", "\\bMath\\s*\\.\\s*(?!(max|min|abs|floorMod|floorDiv|multiplyHigh|multiplyFull)\\b)"},
+      {"4", "\\bArrays\\s*\\.\\s*(?!(fill|copyOf|copyOfRange)\\b)"},
+      {"4", "\\w+Exact\\b"},
+      {"4", "\\bjava\\.(?!util\\.)"},
+      {"5", "\\bstatic\\s*\\{"},
+      {"6", "\\b(throw|throws|try|catch|synchronized|assert)\\b"},
+      {"6", "\\bboolean equals\\s*\\("},
+      {"6", "\\bString toString\\s*\\("},
+      {"6", "\\bhashCode\\b"},
+      {"10", "\"\"\\s*\\+|\\+=?\\s*\"\""}};
+  private static final Set<String> LIBRARY = Set.of("String", "StringBuilder", "Integer", "Long", "Math", "System",
+      "Arrays", "ArrayList", "List", "Iterator", "Iterable", "Comparable", "Override");
+  private static final Set<String> CONSTANTS = Set.of("int", "long", "boolean", "char", "java.lang.String", "[I", "[J",
+      "[C", "[B");
 
   private LanguageTest() {
   }
@@ -36,6 +53,8 @@ public final class LanguageTest {
     face();
     classes();
     words(bare(source));
+    arrows(bare(source));
+    types(bare(source));
     imports(source);
     methodsAreShort(bare(source));
     Due.end();
@@ -56,9 +75,9 @@ public final class LanguageTest {
       names.add(m.getName());
     }
     Due.yes("missing in the face: " + due, due.isEmpty());
-    for (Method m : bell.getDeclaredMethods()) {
-      Due.yes("a private one with a public name: " + m,
-          !Modifier.isPrivate(m.getModifiers()) || !names.contains(m.getName()));
+    privateNames(bell, names);
+    for (Class<?> inside : bell.getDeclaredClasses()) {
+      privateNames(inside, names);
     }
     Constructor<?>[] constructors = bell.getDeclaredConstructors();
     Due.is("constructors", constructors.length, 1);
@@ -66,6 +85,13 @@ public final class LanguageTest {
         && constructors[0].getParameterCount() == 0);
     for (Field f : bell.getDeclaredFields()) {
       Due.yes("private: " + f, Modifier.isPrivate(f.getModifiers()));
+    }
+  }
+
+  private static void privateNames(Class<?> c, Set<String> publicNames) {
+    for (Method m : c.getDeclaredMethods()) {
+      Due.yes("rule 1: a private one with a public name: " + m,
+          !Modifier.isPrivate(m.getModifiers()) || !publicNames.contains(m.getName()));
     }
   }
 
@@ -93,7 +119,8 @@ public final class LanguageTest {
     for (Field f : c.getDeclaredFields()) {
       boolean isStatic = Modifier.isStatic(f.getModifiers());
       own += isStatic ? 0 : 1;
-      Due.yes("a static one is final: " + f, !isStatic || Modifier.isFinal(f.getModifiers()));
+      Due.yes("rule 5: a static one is final: " + f, !isStatic || Modifier.isFinal(f.getModifiers()));
+      Due.yes("rule 5: a static one is a constant: " + f, !isStatic || isConstant(f.getType()));
     }
     Due.yes("some twenty fields: " + c, own <= 20);
     for (Method m : c.getDeclaredMethods()) {
@@ -101,22 +128,46 @@ public final class LanguageTest {
     }
   }
 
+  /** An enum's own constants, and the row of them, too. */
+  private static boolean isConstant(Class<?> type) {
+    return CONSTANTS.contains(type.getName()) || type.isEnum() || type.isArray() && type.getComponentType().isEnum();
+  }
+
   /** Without comments, texts and signs. */
   private static String bare(String source) {
     return source.replaceAll("(?s)/\\*.*?\\*/", "").replaceAll("//[^\n]*", "")
-        .replaceAll("\"[^\"\n]*\"", "\"\"").replaceAll("'[^'\n]'", "' '");
+        .replaceAll("\"(\\\\.|[^\"\\\\\n])*\"", "\"\"").replaceAll("'(\\\\[^\n]+?|[^'\\\\\n])'", "' '");
   }
 
   private static void words(String bare) {
-    for (String word : FORBIDDEN) {
-      boolean letters = word.matches("\\w+");
-      Matcher m = Pattern.compile(letters && !word.equals("Exact") ? "\\b" + word + "\\b" : word).matcher(bare);
+    for (String[] rule : FORBIDDEN) {
+      Matcher m = Pattern.compile(rule[1], Pattern.MULTILINE).matcher(bare);
       boolean found = m.find();
-      Due.yes("no " + word + (found ? ": " + m.group() : ""), !found);
+      Due.yes("rule " + rule[0] + ", no " + rule[1] + (found ? ": " + m.group() : ""), !found);
     }
     for (int i = 0; i < bare.length(); i++) {
       char c = bare.charAt(i);
       Due.yes("sign " + (int) c + " at " + i, c < 127 && (c >= 32 || c == '\n'));
+    }
+  }
+
+  /** Behind a case an arrow is a switch's, elsewhere a lambda's. */
+  private static void arrows(String bare) {
+    for (String line : bare.split("\n")) {
+      Due.yes("rule 2, no lambda: " + line.strip(), !line.contains("->") || line.matches("\\s*(case .*|default\\s*)->.*"));
+    }
+  }
+
+  /** Types are told from constants by their small letters. */
+  private static void types(String bare) {
+    Set<String> own = new HashSet<>();
+    Matcher declared = Pattern.compile("\\b(?:class|interface|enum|record)\\s+(\\w+)").matcher(bare);
+    while (declared.find()) {
+      own.add(declared.group(1));
+    }
+    Matcher used = Pattern.compile("\\b[A-Z]\\w*[a-z]\\w*\\b").matcher(bare);
+    while (used.find()) {
+      Due.yes("rule 4: " + used.group(), own.contains(used.group()) || LIBRARY.contains(used.group()));
     }
   }
 

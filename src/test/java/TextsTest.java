@@ -299,6 +299,11 @@ public final class TextsTest {
     rings("!(!(!0))", 1);
     rings("20-(19-(18-(17-(16-(15)))))", 3);
     rings("3*(2+(1|(4&(5<6))))", 9);
+    rings("5+!0", 6);
+    rings("5+!3", 5);
+    rings("4*!!3+2*!0", 6);
+    rings("7-(1+!(c-7))", 5);
+    rings("0<1+!0", 1);
   }
 
   private static void lawLets() {
