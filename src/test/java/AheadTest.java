@@ -205,6 +205,7 @@ public final class AheadTest {
     x.hours(1);
     Due.is("24: 4 of 8, above", x.odds(1, 0), 1);
     Due.is("24: 4 of 8, below", x.odds(1, 1), 2);
+    oddsOfMany();
     DrownedBell still = Due.steadyOne();
     still.set(6, 1);
     still.hours(4);
@@ -228,6 +229,32 @@ public final class AheadTest {
       Due.is("24: beyond " + w[0] + " " + w[1], y.odds(w[0], w[1]), Due.BEYOND);
     }
     Due.is("24: told", y.told(1), 4);
+  }
+
+  private static void oddsOfMany() {
+    DrownedBell x = Due.steadyOne();
+    Due.text(x, 0, "9");
+    x.set(7, 99999);
+    x.fisher(0, 0);
+    x.hours(11);
+    x.set(1, 1);
+    x.hours(15);
+    Due.is("23: wet", x.book(1, 1), 10);
+    Due.is("23: dry", x.book(1, 0), 15);
+    Due.is("24: 10 of 25, above", x.odds(1, 0), 2);
+    Due.is("24: 10 of 25, below", x.odds(1, 1), 5);
+    Due.is("9: bids at 2 by 5", x.ofFisher(0, 7), 4);
+    x.hours(20);
+    Due.is("24: 10 of 45, above", x.odds(1, 0), 2);
+    Due.is("24: 10 of 45, below", x.odds(1, 1), 9);
+    Due.is("9: bids at 2 by 9", x.ofFisher(0, 7), 2);
+    x.hours(1);
+    Due.is("24: 10 of 46, above", x.odds(1, 0), 5);
+    Due.is("24: 10 of 46, below", x.odds(1, 1), 23);
+    x.set(1, 2);
+    x.hours(24);
+    Due.is("24: 34 of 70, above", x.odds(1, 0), 17);
+    Due.is("24: 34 of 70, below", x.odds(1, 1), 35);
   }
 
   private static void gateFor() {

@@ -9,6 +9,7 @@ public final class FishersTest {
     hears();
     hearsNobody();
     hearsFromFar();
+    eight();
     change();
     become();
     as();
@@ -16,6 +17,7 @@ public final class FishersTest {
     bidsWrong();
     sell();
     sellPays();
+    sellToOneOfFive();
     sellNone();
     Due.end();
   }
@@ -82,7 +84,9 @@ public final class FishersTest {
     oneHears("5", 20, 1, 0);
     oneHears("2", 30, 19, 1);
     oneHears("2", 30, 20, 0);
+    oneHears("2", 30, 18, 1);
     oneHears("1", 30, 0, 0);
+    oneHears("3", 30, 1, 0);
     oneHears("2", 43, 99, 1);
     oneHears("2", 44, 99, 0);
     oneHears("1", 43, 6, 1);
@@ -127,6 +131,23 @@ public final class FishersTest {
     oneHears("20", 59, 99, 1);
     oneHears("20", 60, 0, 1);
     oneHears("1", 69, 99, 1);
+  }
+
+  private static void eight() {
+    DrownedBell x = Due.steadyOne();
+    Due.text(x, 0, "9");
+    for (int i = 0; i < 8; i++) {
+      x.fisher(0, 10 * i);
+    }
+    x.hours(3);
+    for (int i = 0; i < 8; i++) {
+      Due.is("18: heard by " + i, x.ofFisher(i, 4), 3);
+    }
+    Due.is("39: heard of all", x.count(2), 24);
+    Due.is("39: purses of all", x.count(3), 160);
+    x.change(7, 3, 99);
+    Due.is("39: the last one's purse, too", x.count(3), 239);
+    Due.is("21: the last one ahead", x.thenFisher(5, 7, 4), 8);
   }
 
   private static void change() {
@@ -267,6 +288,23 @@ public final class FishersTest {
     Due.is("14: the diver bids 1 by them", x.sell(), 1);
     x.become(1, 60);
     Due.is("14: bids 0 by them", x.sell(), Due.NONE);
+  }
+
+  /** They bid 10, 19, 12, 15 and 10 at first, and no more than their purses then. */
+  private static void sellToOneOfFive() {
+    DrownedBell x = Due.steadyOne();
+    Due.text(x, 0, "9");
+    int[] kinds = {0, 19, 12, 15, 0};
+    for (int km : kinds) {
+      x.fisher(km, 0);
+    }
+    x.hours(2);
+    int[] buyers = {1, 3, 2, 0};
+    int[] left = {5, 8, 10, 10};
+    for (int i = 0; i < buyers.length; i++) {
+      Due.is("14: of five, turn " + i, x.sell(), buyers[i]);
+      Due.is("14: of five, purse in turn " + i, x.ofFisher(buyers[i], 3), left[i]);
+    }
   }
 
   private static void sellNone() {

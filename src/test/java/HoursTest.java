@@ -13,6 +13,7 @@ public final class HoursTest {
     strainEdges();
     book();
     heard();
+    apart();
     dayTurns();
     lastHour();
     wrong();
@@ -229,6 +230,27 @@ public final class HoursTest {
     Due.is("18: heard by the diver", x.ofFisher(2, 4), 9998);
     Due.is("18: heard at most", x.thenFisher(1, 2, 4), 9999);
     Due.is("18: heard no more", x.thenFisher(240, 2, 4), 9999);
+  }
+
+  /** LEVEL, GATE, SILT and SPILT are high: none of them is taken for another. */
+  private static void apart() {
+    DrownedBell x = Due.wetOne();
+    Due.text(x, 0, "9");
+    Due.text(x, 1, "0");
+    x.set(3, 600);
+    x.set(4, 90);
+    x.set(5, 80);
+    x.fisher(60, 0);
+    x.fisher(0, 99);
+    x.hours(5);
+    Due.is("18: spilt", x.now(9), 90);
+    Due.is("18: silt, whatever LETS gives", x.now(6), 35);
+    Due.is("18: strain by the current", x.now(7), 40);
+    Due.is("18: heard", x.ofFisher(0, 4), 5);
+    Due.is("18: not heard", x.ofFisher(1, 4), 0);
+    DrownedBell y = Due.wetOne();
+    y.hours(1);
+    Due.is("18: the note of 9 strikes by the current", y.now(10), 1);
   }
 
   private static void dayTurns() {

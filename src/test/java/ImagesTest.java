@@ -9,6 +9,7 @@ public final class ImagesTest {
     imageLeaves();
     imageAgain();
     imageOfTheFull();
+    imageOverwritten();
     imageOfTheNew();
     restoreFromTheLastHour();
     tell();
@@ -168,6 +169,46 @@ public final class ImagesTest {
     Due.is("38: all are so again", x.check(), 0);
     Due.is("16: taken again", x.text(0), 1);
     Due.is("17: gives", x.law(0, 9, 0, 0), 20);
+  }
+
+  /** Each number that waits, each of FISHERS, each of THINGS and each byte is what it was. */
+  private static void imageOverwritten() {
+    DrownedBell x = new DrownedBell();
+    for (int i = 0; i < 8; i++) {
+      x.fisher(i, i);
+    }
+    for (int i = 0; i < 20; i++) {
+      x.tell(295 - 5 * i);
+    }
+    Due.feed(x, "!0*c-1-1-1-1-1-1-1-1-1-1-1-1-1-1-1-1-1-1-1-1-1-1-1");
+    x.image();
+    x.check();
+    for (int i = 0; i < 20; i++) {
+      x.tell(7);
+    }
+    for (int i = 0; i < 8; i++) {
+      x.become(i, 69);
+      x.change(i, 2, 99);
+      x.change(i, 3, 100 + i);
+    }
+    for (int i = 0; i < 6; i++) {
+      x.thing(i, 0);
+    }
+    Due.is("16: taken", x.text(0), 1);
+    Due.feed(x, "99999999999999999999999999999999999999999999999999");
+    Due.is("36: hour 0", x.restore(), 0);
+    for (int i = 0; i < 8; i++) {
+      int[] were = {0, i, i, 20};
+      for (int what = 0; what < 4; what++) {
+        Due.is("36: fisher " + i + " what " + what, x.ofFisher(i, what), were[what]);
+      }
+    }
+    for (int i = 0; i < 6; i++) {
+      Due.is("36: thing " + i, x.thing(i, 0), 100 * (i + 1));
+    }
+    Due.is("36: each number that waits", x.check(), 0);
+    Due.is("36: each byte", x.text(0), 1);
+    Due.is("17: gives", x.law(0, 33, 0, 0), 10);
   }
 
   /** What was empty is empty again, and what comes then is new. */

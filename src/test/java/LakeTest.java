@@ -7,6 +7,7 @@ public final class LakeTest {
     newObject();
     rain();
     set();
+    setApart();
     setWrong();
     now();
     nowByLaw();
@@ -84,6 +85,22 @@ public final class LakeTest {
       Due.is("3: below " + what, x.set(what, low[what] - 1), Due.BEYOND);
       Due.is("3: above " + what, x.set(what, high[what] + 1), Due.BEYOND);
       Due.is("3: was high " + what, x.set(what, first[what]), high[what]);
+    }
+  }
+
+  /** One becomes another, the others stay. */
+  private static void setApart() {
+    DrownedBell x = new DrownedBell();
+    int[] high = {5, 4, 3, 600, 89, 90, 1, 99999};
+    for (int what = 0; what < 8; what++) {
+      x.set(what, high[what]);
+    }
+    for (int what = 0; what < 8; what++) {
+      Due.is("3: was " + what, x.set(what, 1), high[what]);
+      for (int other = 0; other < 8; other++) {
+        int stays = other == what ? 1 : high[other];
+        Due.is("3: " + other + " when " + what + " becomes 1", x.set(other, high[other]), stays);
+      }
     }
   }
 

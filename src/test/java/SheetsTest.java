@@ -17,6 +17,7 @@ public final class SheetsTest {
     putEdges();
     judge();
     judgeMuffled();
+    judgeBySilt();
     judgeLeaves();
     Due.end();
   }
@@ -325,6 +326,23 @@ public final class SheetsTest {
     Due.is("34: beyond above", x.judge(4), Due.BEYOND);
     Due.is("34: beyond below", x.judge(-1), Due.BEYOND);
     Due.is("34: missing", x.judge(1), Due.NONE);
+  }
+
+  /** NOTES change with SILT, though there are as many STRIKES. */
+  private static void judgeBySilt() {
+    DrownedBell x = new DrownedBell();
+    Due.text(x, 0, "4");
+    x.set(5, 25);
+    lay(x, 0, 7, 7, 6, 6, 5, 5, 5, 5);
+    Due.is("34: less silt each hour", x.judge(0), 8);
+    x.put(0, 2, 7);
+    Due.is("34: the note of an hour ahead", x.judge(0), 2);
+    Due.is("34: silt as it was", x.now(6), 25);
+    x.rain(0, 0, 9);
+    x.rain(0, 1, 9);
+    x.set(5, 15);
+    lay(x, 1, 6, 7, 7, 7);
+    Due.is("34: more silt, then less", x.judge(1), 4);
   }
 
   private static void judgeMuffled() {

@@ -69,6 +69,8 @@ public final class TextsTest {
     Due.text(x, 0, "5+1");
     Due.is("16: no sign stays of the longer one", x.law(0, 0, 0, 0), 6);
     Due.is("16: fifty bytes", Due.text(x, 0, "1+1+1+1+1+1+1+1+1+1+1+1+1+1+1+1+1+1+1+1+1+1+1+1+10"), 1);
+    Due.is("16: fifty signs and numbers", Due.text(x, 0, "!0*c-1-1-1-1-1-1-1-1-1-1-1-1-1-1-1-1-1-1-1-1-1-1-1"), 1);
+    Due.is("17: all of them count", x.law(0, 33, 0, 0), 10);
     Due.is("16: too early at 50", Due.text(x, 0, "1+1+1+1+1+1+1+1+1+1+1+1+1+1+1+1+1+1+1+1+1+1+1+1+1+"), -60);
   }
 
@@ -190,6 +192,15 @@ public final class TextsTest {
     fault("(!1+!1+((((!", 11);
     fault("((((!1&!!1))))", 8);
     fault("((((!1&!1))))", -1);
+    String[] signs = {"|", "&", "<", "=", ">", "+", "-", "*", "/", "%"};
+    for (String sign : signs) {
+      fault("(((((1" + sign + "(1)))))", 7);
+      fault("(((((1" + sign + "!1)))))", 7);
+      fault("((((1" + sign + "(1)))))", -1);
+      fault("((((1" + sign + "!1))))", -1);
+      boolean once = "<=>".contains(sign);
+      fault("1" + sign + "1" + sign + "1" + sign + "1" + sign + "1" + sign + "1" + sign + "(((((1)))))", once ? 3 : -1);
+    }
   }
 
   private static void rings(String text, int want) {

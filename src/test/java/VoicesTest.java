@@ -87,6 +87,9 @@ public final class VoicesTest {
     x.fisher(9, 0);
     Due.is("28: round", x.voice(1, 0, Integer.MAX_VALUE), Integer.MIN_VALUE);
     Due.is("28: round twice", x.voice(1, 1, 1 << 30), -2147483646);
+    Due.is("29: two bodies by a great number", x.count(6), 2);
+    Due.is("29: the first", x.trace(0), 11);
+    Due.is("29: the second", x.trace(1), 10);
     Due.is("28: round down", x.voice(0, 2, Integer.MIN_VALUE), 2147483639);
     Due.is("28: no error though so low", x.voice(0, 0, Due.BEYOND), Due.BEYOND);
     Due.is("28: told nothing", x.told(1), 0);
